@@ -82,6 +82,22 @@ public final class PromisesTest {
         due("model behind", x.model(values.length + 1), -1);
     }
 
+    /** Five pigeons, four holes: 45 clauses that take many conflicts. */
+    private static LearntReasons pigeons() {
+        LearntReasons x = told("grow 20;1 2 3 4;5 6 7 8;9 10 11 12;13 14 15 16;17 18 19 20;");
+        for (int hole = 1; hole <= 4; hole++) {
+            StringBuilder text = new StringBuilder();
+            for (int p = hole; p <= 20; p += 4) {
+                for (int q = p + 4; q <= 20; q += 4) {
+                    text.append("-" + p + "-" + q + ";");
+                }
+            }
+            put(x, text.toString());
+            due("tell() of a hole", x.tell(), 10);
+        }
+        return x;
+    }
+
     private static final String ALL_FOUR = "grow 2;1 2;1 -2;-1 2;-1 -2;";
 
     // ---- the promises
@@ -365,6 +381,7 @@ public final class PromisesTest {
         x.unit(7);
         x.assume(-1);
         due("keep(0)", x.keep(0), true);
+        x.add(1);
         x.free();
         due("solve(1)", x.solve(1), 2);
         x.assume(2);
@@ -413,6 +430,21 @@ public final class PromisesTest {
         dueModel(y, 1, 0, 1);
         y.back(1);
         dueModel(y, 1, 0);
+        LearntReasons z = told("grow 4;1 3 4;1 3 -4;-2 1;assume 2 -1;");
+        z.unit(1);
+        due("solve", z.solve(1), 0);
+        z.keep(0);
+        put(z, "assume;phase -1 -2;");
+        z.tell();
+        due("solve", z.solve(1), 2);
+        due("ANEW", z.count(13), 1);
+        put(z, "assume 2 3 -1;");
+        z.tell();
+        due("solve", z.solve(1), 0);
+        due("core()", z.core(), 5);
+        z.back(0);
+        due("core() as kept", z.core(), 3);
+        due("ANEW as kept", z.count(13), 0);
     }
 
     private static void promise16() {
@@ -477,6 +509,55 @@ public final class PromisesTest {
         due("solve of no variables", new LearntReasons().solve(1), 1);
         LearntReasons once = told(ALL_FOUR);
         due("solve(2)", once.solve(2), 0);
+    }
+
+    /** With its budget as its conflicts, how often it starts anew goes by the sums of the row alone. */
+    private static void promise16row() {
+        int[] sums = {1, 2, 4, 5, 6, 8, 12, 13, 14, 16, 17, 18, 20, 24};
+        for (int unit = 1; unit <= 3; unit++) {
+            for (int i = 0; i < sums.length && unit * sums[i] <= 24; i++) {
+                LearntReasons x = pigeons();
+                x.unit(unit);
+                due("solve", x.solve(unit * sums[i]), 2);
+                due("ANEW of " + unit + " times " + sums[i], x.count(13), i + 1);
+                due("conflicts", x.count(10), unit * sums[i]);
+            }
+        }
+    }
+
+    private static void promise16least() {
+        LearntReasons x = told("grow 3;1 2;3 1 -2;1 -2;assume -3;");
+        // -3, -1, 2 by clause 0: clauses 1 and 2 are all false, and that of 1 is learnt from
+        due("solve(1)", x.solve(1), 2);
+        dueClause(x, 3, 1, 3);
+    }
+
+    private static void promise16trimsByLevel0() {
+        LearntReasons x = told("grow 5;5;1 -2 -5;1 2 3 4;1 2 3 -4;");
+        due("solve(1)", x.solve(1), 2);
+        dueClause(x, 4, 3, 1);
+        due("LEVEL 0 is not SEEN", x.variable(5, 1), 0);
+    }
+
+    private static void promise16full() {
+        LearntReasons x = pigeons();
+        int ended = 2;
+        for (int i = 0; i < 100 && ended == 2; i++) {
+            ended = x.solve(4);
+            x.forget(1);
+        }
+        due("ended", ended, 3);
+        due("count(14)", x.count(14), 3);
+        due("core()", x.core(), -1);
+        due("CLAUSES", x.count(1), 400);
+        due("LEARNT at", x.count(10), 355);
+        due("lines", x.count(7), 355);
+        due("proof()", x.proof(), -1);
+        x.add(1);
+        due("close() at 400", x.close(), -1);
+        due("it is as it was", x.count(5), 1);
+        dueFault(x, "phase 1;-1;", 3, 8);
+        dueFault(x, "phase 1;1;", 3, 8);
     }
 
     /** The second conflict meets scores of the first: 14 and 16 more is 30, less 3; 14 alone less 1. */
@@ -581,6 +662,10 @@ public final class PromisesTest {
         LearntReasons y = told("grow 3;1;-1 -2 3;assume 2 -3;");
         due("solve", y.solve(1), 0);
         due("LEVEL 0 is none of it", y.core(), 3);
+        put(y, "-1;");
+        y.tell();
+        due("solve", y.solve(1), 0);
+        due("REFUTED", y.core(), 0);
     }
 
     private static void promise22() {
@@ -769,6 +854,10 @@ public final class PromisesTest {
         say("16 solve, starts anew"); promise16startsAnew();
         say("16 solve, ends"); promise16ends();
         say("16 solve, scores"); promise16scores();
+        say("16 solve, the row of numbers"); promise16row();
+        say("16 solve, the least clause"); promise16least();
+        say("16 solve, trims by level 0"); promise16trimsByLevel0();
+        say("16 solve, 8 close, 5 fault, 400 clauses"); promise16full();
         say("17 count"); promise17();
         say("18 clause"); promise18();
         say("19 assumption"); promise19();
