@@ -1,104 +1,5 @@
-import java.util.NoSuchElementException;
-
 /** One method for each promise of the document, its answers worked out by hand. */
-public final class PromisesTest {
-    private static final int THREW = 12345;
-    private static int wrong = 0;
-    private static String promise = "";
-
-    private static void due(String what, long got, long want) {
-        if (got != want) {
-            wrong++;
-            System.out.println(promise + ": " + what + " answered " + got + ", due is " + want);
-        }
-    }
-
-    private static void due(String what, boolean got, boolean want) {
-        due(what, got ? 1 : 0, want ? 1 : 0);
-    }
-
-    // ---- small helpers
-
-    private static void put(LearntReasons x, String text) {
-        int had = x.count(9);
-        for (int i = 0; i < text.length(); i += 20) {
-            int[] n = new int[5];
-            for (int k = 0; k < 20; k++) {
-                n[k / 4] = n[k / 4] << 8 | (i + k < text.length() ? text.charAt(i + k) : 0);
-            }
-            x.feed(n[0], n[1], n[2], n[3], n[4]);
-        }
-        x.end(had + text.length());
-    }
-
-    private static LearntReasons told(String text) {
-        LearntReasons x = new LearntReasons();
-        put(x, text);
-        due("tell() of " + text, x.tell() >= 0, true);
-        return x;
-    }
-
-    private static void dueFault(LearntReasons x, String text, int kind, int place) {
-        put(x, text);
-        due("tell() of " + text, x.tell(), -1);
-        due("fault() of " + text, x.fault(), kind + 8 * place);
-        due("TAPE behind " + text, x.count(9), 0);
-    }
-
-    private static void dueLogFault(LearntReasons x, String text, int kind, int place) {
-        put(x, text);
-        due("refute() of " + text, x.refute(), -1);
-        due("fault() of " + text, x.fault(), kind + 8 * place);
-        due("TAPE behind " + text, x.count(9), 0);
-    }
-
-    private static int clauseOf(LearntReasons x, int clause, int what) {
-        try {
-            return x.clause(clause, what);
-        } catch (NoSuchElementException e) {
-            return THREW;
-        }
-    }
-
-    private static void dueClause(LearntReasons x, int clause, int... literals) {
-        due("length of clause " + clause, clauseOf(x, clause, -1), literals.length);
-        for (int i = 0; i < literals.length; i++) {
-            due("clause(" + clause + ", " + i + ")", clauseOf(x, clause, i), literals[i]);
-        }
-        due("behind clause " + clause, clauseOf(x, clause, literals.length), THREW);
-    }
-
-    private static void dueCounts(LearntReasons x, int conflicts, int decisions, int draws, int anews) {
-        due("count(10)", x.count(10), conflicts);
-        due("count(11)", x.count(11), decisions);
-        due("count(12)", x.count(12), draws);
-        due("count(13)", x.count(13), anews);
-    }
-
-    private static void dueModel(LearntReasons x, int... values) {
-        for (int v = 1; v <= values.length; v++) {
-            due("model(" + v + ")", x.model(v), values[v - 1]);
-        }
-        due("model behind", x.model(values.length + 1), -1);
-    }
-
-    /** Five pigeons, four holes: 45 clauses that take many conflicts. */
-    private static LearntReasons pigeons() {
-        LearntReasons x = told("grow 20;1 2 3 4;5 6 7 8;9 10 11 12;13 14 15 16;17 18 19 20;");
-        for (int hole = 1; hole <= 4; hole++) {
-            StringBuilder text = new StringBuilder();
-            for (int p = hole; p <= 20; p += 4) {
-                for (int q = p + 4; q <= 20; q += 4) {
-                    text.append("-" + p + "-" + q + ";");
-                }
-            }
-            put(x, text.toString());
-            due("tell() of a hole", x.tell(), 10);
-        }
-        return x;
-    }
-
-    private static final String ALL_FOUR = "grow 2;1 2;1 -2;-1 2;-1 -2;";
+public final class PromisesTest extends Bench {
 
     // ---- the promises
 
@@ -831,7 +732,7 @@ public final class PromisesTest {
     }
 
     private static void say(String name) {
-        promise = name;
+        now = name;
     }
 
     public static void main(String[] args) {
@@ -871,9 +772,6 @@ public final class PromisesTest {
         say("27 closed"); promise27();
         say("28 models"); promise28();
         say("29 fixed"); promise29();
-        System.out.println("PromisesTest: " + (wrong == 0 ? "all answers are as due" : wrong + " answers are not as due"));
-        if (wrong != 0) {
-            System.exit(1);
-        }
+        end("PromisesTest");
     }
 }
