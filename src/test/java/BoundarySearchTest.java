@@ -326,6 +326,16 @@ public final class BoundarySearchTest extends Bench {
         due("SCORE of 2: not SEEN", x.variable(2, 1), 0);
     }
 
+    private static void promise16_learnt_whatHadNoPartInItIsNotSeen() {
+        // -5, -1, then 2, 3, 4 by clauses 0 to 2, clash 3: of 1, 4 goes 4 for 2, then 2; 3 stands between them
+        LearntReasons x = told("grow 5;1 2;1 5 3;-2 4;1 -4;assume -5;");
+        due("solve(1)", x.solve(1), 2);
+        dueClause(x, 4, 1);
+        due("SCORE of 3", x.variable(3, 1), 0);
+        due("SCORE of 5", x.variable(5, 1), 0);
+        due("SCORE of 4", x.variable(4, 1), 14);
+    }
+
     private static void promise16_learnt_withoutThoseOfLevel0() {
         LearntReasons x = told("grow 5;5;1 -2 -5;1 2 3 4;1 2 3 -4 -5;");
         due("solve(1)", x.solve(1), 2);
@@ -387,6 +397,27 @@ public final class BoundarySearchTest extends Bench {
             due("SCORE of " + (2 * block - 1), x.variable(2 * block - 1, 1), score);
             due("SCORE of " + 2 * block, x.variable(2 * block, 1), score);
         }
+    }
+
+    private static void promise16_scores_ofWhatIsSeenAgain() {
+        LearntReasons x = told("grow 5;1 2 3;1 2 -3;1 -2 4;1 -2 -4;");
+        due("solve(9)", x.solve(9), 1);
+        dueCounts(x, 2, 6, 2, 0);
+        int[] scores = {30 - 3, 30 - 3, 14 - 1, 16 - 2, 0};
+        for (int v = 1; v <= 5; v++) {
+            due("SCORE of " + v, x.variable(v, 1), scores[v - 1]);
+        }
+    }
+
+    private static void promise16_leap_to0BehindALongerOne() {
+        // 2 1 is learnt at LEVEL 2, then 1 at LEVEL 1
+        LearntReasons x = told("grow 5;1 2 3;1 2 -3;1 -2 4;1 -2 -4;");
+        due("solve(2)", x.solve(2), 2);
+        dueClause(x, 4, 2, 1);
+        dueClause(x, 5, 1);
+        due("PHASE of 1", x.variable(1, 0), 1);
+        due("solve(9)", x.solve(9), 1);
+        due("model(1)", x.model(1), 1);
     }
 
     private static void promise16_leap_to0WithoutAnother() {
@@ -474,6 +505,12 @@ public final class BoundarySearchTest extends Bench {
         for (int i = 1; i <= 3; i++) {
             due("solve(3)", x.solve(3), 2);
             due("ANEW at 1 and 2 of each", x.count(13), 2 * i);
+        }
+        LearntReasons one = rings();
+        one.unit(1);
+        for (int i = 1; i <= 5; i++) {
+            due("solve(1)", one.solve(1), 2);
+            due("ANEW at 1 of each", one.count(13), i);
         }
         LearntReasons y = rings();
         y.unit(3);
@@ -732,6 +769,17 @@ public final class BoundarySearchTest extends Bench {
         LearntReasons y = told("grow 2;-1 2;1;assume -2;");
         due("solve", y.solve(1), 0);
         due("what came at LEVEL 0 is none of it", y.core(), 1);
+    }
+
+    private static void promise21_withAll30OnTheTrail() {
+        LearntReasons x = told("grow 30;assume 1;");
+        for (int v = 1; v <= 29; v++) {
+            tellMore(x, "-" + v + " " + (v + 1) + ";");
+        }
+        x.assume(-30);
+        due("solve", x.solve(1), 0);
+        due("draws", x.count(12), 29);
+        due("core()", x.core(), 3);
     }
 
     private static void promise21_thoseThatWereDrawnAreNoneOfIt() {

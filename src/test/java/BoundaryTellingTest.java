@@ -227,6 +227,14 @@ public final class BoundaryTellingTest extends Bench {
         due("end(7)", x.end(7), false);
         dueTold(x, ";", 1);
         due("V", x.count(0), 1);
+        put(x, "1;grows");
+        due("end(6)", x.end(6), true);
+        due("tell()", x.tell(), NONE);
+        due("the word ends with the TAPE", x.fault(), 1 + 8 * 6);
+        put(x, "1;123");
+        due("end(3)", x.end(3), true);
+        due("tell()", x.tell(), NONE);
+        due("the INT ends with the TAPE", x.fault(), 1 + 8 * 3);
     }
 
     // ---- 6
@@ -679,10 +687,12 @@ public final class BoundaryTellingTest extends Bench {
         x.add(9);
         x.close();
         x.add(3);
-        tellMore(x, "assume 1;phase -5 9;" + "10 11;10 -11;-10 12;-10 -12;");
-        x.unit(3);
-        due("solve", x.solve(9) >= 0, true);
-        x.free();
+        tellMore(x, "assume;phase -5 9;10 11;10 -11;");
+        x.unit(1);
+        due("solve", x.solve(9), 1);
+        due("a MODEL of 13", x.model(13) != NONE, true);
+        due("ANEW", x.count(13) > 0, true);
+        tellMore(x, "-10 12;-10 -12;assume 1;");
         due("solve", x.solve(9), 0);
         due("REFUTED", x.count(8), 1);
         dueLog(x, "10;;", 2);
@@ -723,6 +733,51 @@ public final class BoundaryTellingTest extends Bench {
         dueSame("the empty one", pictureOf(x), empty);
         x.back(1);
         dueSame("the full one", pictureOf(x), full);
+    }
+
+    private static void promise15_numbersAreUsedAgain() {
+        LearntReasons x = told("grow 4;");
+        x.keep(0);
+        tellMore(x, "1 2;-3 4;");
+        x.back(0);
+        dueTold(x, "-1 3;1;", 2);
+        dueClause(x, 0, -1, 3);
+        due("CLAUSES with 2", x.variable(2, 2), 0);
+        due("CLAUSES with 4", x.variable(4, 2), 0);
+        due("models()", x.models(), 4);
+        due("follows(0)", x.follows(0), 1);
+        due("follows(1)", x.follows(1), 3);
+    }
+
+    private static void promise15_whereOtherClausesHadTheNumbers() {
+        LearntReasons x = told("grow 4;");
+        x.keep(0);
+        tellMore(x, "1;-2;");
+        x.keep(1);
+        String before = pictureOf(x);
+        x.back(0);
+        tellMore(x, "-1 -2 -3;4;3 -4;");
+        x.back(1);
+        dueSame("all", pictureOf(x), before);
+        dueClause(x, 0, 1);
+        dueClause(x, 1, -2);
+        due("follows(0)", x.follows(0), 1);
+        due("follows(1)", x.follows(1), -2);
+        due("models()", x.models(), 4);
+    }
+
+    private static void promise15_whatWasGoneSinceIsThereAgain() {
+        LearntReasons x = told("grow 4;1 3 4;1 3 -4;");
+        due("solve", x.solve(9), 1);
+        x.keep(0);
+        due("forget(1)", x.forget(1), 1);
+        x.keep(1);
+        x.back(0);
+        due("GONE", clauseOf(x, 2, -3), 0);
+        due("not GONE", x.count(3), 1);
+        x.back(1);
+        due("GONE", clauseOf(x, 2, -3), 1);
+        due("not GONE", x.count(3), 0);
     }
 
     private static void promise15_with400Clauses() {

@@ -201,6 +201,9 @@ public final class BoundaryTextTest extends Bench {
         LearntReasons x = told("grow 9;");
         dueFault(x, times(399, " ") + "1", 1, 400);
         dueFault(x, "-" + times(399, " "), 1, 400);
+        dueFault(x, times(396, " ") + "grow", 1, 400);
+        dueFault(x, times(395, " ") + "grows", 1, 395);
+        dueFault(x, times(398, " ") + "12", 2, 398);
         dueFault(x, times(399, " ") + ";", 1, 399);
         dueFault(x, times(398, " ") + "0;", 2, 398);
     }
@@ -251,7 +254,8 @@ public final class BoundaryTextTest extends Bench {
     private static void promise05_1_otherWords() {
         LearntReasons x = told("grow 9;");
         String[] words = {"a", "z", "g", "gro", "grows", "growx 1", "rgrow", "assum", "assumes", "aassume", "phas",
-            "phases", "hase", "growgrow", "growassume", "Grow", "GROW", "Assume", "Phase", "word"};
+            "phases", "hase", "growa", "growz", "assumea", "assumez", "phasea", "phasez", "brow", "hrow", "gsow", "grpw",
+            "grox", "bssume", "asxume", "assumd", "qhase", "pgase", "phbse", "phate", "phasf", "growgrow", "growassume", "Grow", "GROW", "Assume", "Phase", "word"};
         for (String word : words) {
             dueFault(x, word + " 1;", 1, 0);
             dueFault(x, "1;" + word + ";", 1, 2);
