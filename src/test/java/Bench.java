@@ -37,7 +37,7 @@ abstract class Bench {
         }
     }
 
-    static void dueClause(LearntReasons x, int clause, int... literals) {
+    static void dueClause(Subject x, int clause, int... literals) {
         due("length of clause " + clause, clauseOf(x, clause, NONE), literals.length);
         for (int i = 0; i < literals.length; i++) {
             due("clause(" + clause + ", " + i + ")", clauseOf(x, clause, i), literals[i]);
@@ -45,7 +45,7 @@ abstract class Bench {
         due("behind clause " + clause, clauseOf(x, clause, literals.length), THREW);
     }
 
-    static void dueLine(LearntReasons x, int line, int... literals) {
+    static void dueLine(Subject x, int line, int... literals) {
         due("length of line " + line, x.line(line, NONE), literals.length);
         for (int i = 0; i < literals.length; i++) {
             due("line(" + line + ", " + i + ")", x.line(line, i), literals[i]);
@@ -53,42 +53,42 @@ abstract class Bench {
         due("behind line " + line, x.line(line, literals.length), -100);
     }
 
-    static void dueCounts(LearntReasons x, int conflicts, int decisions, int draws, int anews) {
+    static void dueCounts(Subject x, int conflicts, int decisions, int draws, int anews) {
         due("count(10)", x.count(10), conflicts);
         due("count(11)", x.count(11), decisions);
         due("count(12)", x.count(12), draws);
         due("count(13)", x.count(13), anews);
     }
 
-    static void dueModel(LearntReasons x, int... values) {
+    static void dueModel(Subject x, int... values) {
         for (int v = 1; v <= values.length; v++) {
             due("model(" + v + ")", x.model(v), values[v - 1]);
         }
         due("model behind", x.model(values.length + 1), NONE);
     }
 
-    static void dueTold(LearntReasons x, String text, int statements) {
+    static void dueTold(Subject x, String text, int statements) {
         put(x, text);
         due("tell() of " + text, x.tell(), statements);
         due("fault() of " + text, x.fault(), 0);
         due("TAPE behind " + text, x.count(9), 0);
     }
 
-    static void dueFault(LearntReasons x, String text, int kind, int place) {
+    static void dueFault(Subject x, String text, int kind, int place) {
         put(x, text);
         due("tell() of " + text, x.tell(), NONE);
         due("fault() of " + text, x.fault(), kind + 8 * place);
         due("TAPE behind " + text, x.count(9), 0);
     }
 
-    static void dueLog(LearntReasons x, String text, int accepted) {
+    static void dueLog(Subject x, String text, int accepted) {
         put(x, text);
         due("refute() of " + text, x.refute(), accepted);
         due("fault() of " + text, x.fault(), 0);
         due("TAPE behind " + text, x.count(9), 0);
     }
 
-    static void dueLogFault(LearntReasons x, String text, int kind, int place) {
+    static void dueLogFault(Subject x, String text, int kind, int place) {
         put(x, text);
         due("refute() of " + text, x.refute(), NONE);
         due("fault() of " + text, x.fault(), kind + 8 * place);
@@ -96,19 +96,19 @@ abstract class Bench {
     }
 
     /** The call answers so, and all that can be asked is as it was ahead of it. */
-    static void dueRefused(LearntReasons x, String call, IntSupplier answer, int want) {
+    static void dueRefused(Subject x, String call, IntSupplier answer, int want) {
         String before = pictureOf(x);
         due(call, answer.getAsInt(), want);
         dueSame(call + " changes nothing", pictureOf(x), before);
     }
 
-    static void dueFalse(LearntReasons x, String call, BooleanSupplier answer) {
+    static void dueFalse(Subject x, String call, BooleanSupplier answer) {
         dueRefused(x, call, () -> answer.getAsBoolean() ? 1 : 0, 0);
     }
 
     // ---- calls
 
-    static void put(LearntReasons x, String text) {
+    static void put(Subject x, String text) {
         int had = x.count(9);
         for (int i = 0; i < text.length(); i += 20) {
             int[] n = new int[5];
@@ -120,18 +120,18 @@ abstract class Bench {
         x.end(had + text.length());
     }
 
-    static LearntReasons told(String text) {
-        LearntReasons x = new LearntReasons();
+    static Subject told(String text) {
+        Subject x = new Subject();
         tellMore(x, text);
         return x;
     }
 
-    static void tellMore(LearntReasons x, String text) {
+    static void tellMore(Subject x, String text) {
         put(x, text);
         due("tell() of " + text, x.tell() >= 0, true);
     }
 
-    static int clauseOf(LearntReasons x, int clause, int what) {
+    static int clauseOf(Subject x, int clause, int what) {
         try {
             return x.clause(clause, what);
         } catch (NoSuchElementException e) {
@@ -143,53 +143,80 @@ abstract class Bench {
         return text.repeat(n);
     }
 
-    /** All that can be asked without changing anything, as one text. */
-    static String pictureOf(LearntReasons x) {
+    /** All that can be asked, as one text; asked aside, for it is more than the calls that x has left. */
+    static String pictureOf(Subject x) {
         StringBuilder b = new StringBuilder("counts");
         for (int what = 0; what <= 14; what++) {
-            b.append(' ').append(x.count(what));
+            int n = what;
+            b.append(' ').append(x.aside(y -> y.count(n)));
         }
-        b.append("; fault ").append(x.fault()).append("; closed ").append(x.closed()).append("; core ").append(x.core());
-        for (int i = 0; i < x.count(1); i++) {
-            b.append("; ").append(clauseOf(x, i, -2)).append(clauseOf(x, i, -3));
-            for (int k = 0; k < clauseOf(x, i, NONE); k++) {
-                b.append(' ').append(clauseOf(x, i, k));
-            }
-        }
-        b.append("; assumed");
+        b.append("; fault ").append(x.aside(LearntReasons::fault));
+        b.append("; closed ").append(x.aside(LearntReasons::closed));
+        b.append("; core ").append(x.aside(LearntReasons::core));
+        b.append(pictureOfClauses(x)).append("; assumed");
         for (int i = 0; i < 8; i++) {
-            b.append(' ').append(x.assumption(i));
+            int n = i;
+            b.append(' ').append(x.aside(y -> y.assumption(n)));
         }
-        for (int v = 1; v <= 30; v++) {
-            b.append("; ").append(x.model(v));
-            for (int what = 0; what <= 2; what++) {
-                b.append(' ').append(x.variable(v, what));
-            }
+        b.append(pictureOfVariables(x)).append(pictureOfLog(x)).append("; follows");
+        for (int i = NONE; i < 30; i++) {
+            int n = i;
+            b.append(' ').append(x.aside(y -> y.follows(n)));
         }
-        return b.append(pictureOfLog(x)).toString();
+        b.append("; proof ").append(x.aside(LearntReasons::proof));
+        b.append("; models ").append(x.aside(LearntReasons::models));
+        b.append("; fixed ").append(x.aside(y -> y.fixed(true)));
+        return b.append(' ').append(x.aside(y -> y.fixed(false))).toString();
     }
 
-    private static String pictureOfLog(LearntReasons x) {
-        StringBuilder b = new StringBuilder("; log");
-        for (int i = 0; i < x.count(7); i++) {
+    private static String pictureOfClauses(Subject x) {
+        StringBuilder b = new StringBuilder();
+        int clauses = x.aside(y -> y.count(1));
+        for (int i = 0; i < clauses; i++) {
+            int clause = i;
+            int length = x.aside(y -> y.clause(clause, NONE));
             b.append("; ");
-            for (int k = 0; k < x.line(i, NONE); k++) {
-                b.append(' ').append(x.line(i, k));
+            for (int k = -3; k < length; k++) {
+                int what = k;
+                b.append(' ').append(x.aside(y -> y.clause(clause, what)));
             }
         }
-        b.append("; follows ").append(x.follows(NONE));
-        for (int i = 0; i < 30; i++) {
-            b.append(' ').append(x.follows(i));
+        return b.toString();
+    }
+
+    private static String pictureOfVariables(Subject x) {
+        StringBuilder b = new StringBuilder();
+        for (int v = 1; v <= 30; v++) {
+            int variable = v;
+            b.append("; ").append(x.aside(y -> y.model(variable)));
+            for (int what = 0; what <= 2; what++) {
+                int n = what;
+                b.append(' ').append(x.aside(y -> y.variable(variable, n)));
+            }
         }
-        b.append("; proof ").append(x.proof()).append("; models ").append(x.models());
-        return b.append("; fixed ").append(x.fixed(true)).append(' ').append(x.fixed(false)).toString();
+        return b.toString();
+    }
+
+    private static String pictureOfLog(Subject x) {
+        StringBuilder b = new StringBuilder("; log");
+        int lines = x.aside(y -> y.count(7));
+        for (int i = 0; i < lines; i++) {
+            int line = i;
+            int length = x.aside(y -> y.line(line, NONE));
+            b.append("; ");
+            for (int k = 0; k < length; k++) {
+                int what = k;
+                b.append(' ').append(x.aside(y -> y.line(line, what)));
+            }
+        }
+        return b.toString();
     }
 
     // ---- problems
 
     /** Something of everything: a model, a core, a GONE clause, a FAULT, a TAPE, a clause that is being told. */
-    static LearntReasons rich() {
-        LearntReasons x = told("grow 9;1 3 4;1 3 -4;-7 8;phase 5;");
+    static Subject rich() {
+        Subject x = told("grow 9;1 3 4;1 3 -4;-7 8;phase 5;");
         x.unit(7);
         x.solve(9);
         x.forget(1);
@@ -208,8 +235,8 @@ abstract class Bench {
     }
 
     /** Five pigeons, four holes: 45 clauses that take many conflicts. */
-    static LearntReasons pigeons() {
-        LearntReasons x = told("grow 20;1 2 3 4;5 6 7 8;9 10 11 12;13 14 15 16;17 18 19 20;");
+    static Subject pigeons() {
+        Subject x = told("grow 20;1 2 3 4;5 6 7 8;9 10 11 12;13 14 15 16;17 18 19 20;");
         for (int hole = 1; hole <= 4; hole++) {
             StringBuilder text = new StringBuilder();
             for (int p = hole; p <= 20; p += 4) {
@@ -223,10 +250,10 @@ abstract class Bench {
     }
 
     /** So many clauses in all, 45 of them told, those LEARNT of more than one LITERAL being GONE. */
-    static LearntReasons pigeonsWith(int clauses) {
-        LearntReasons x = pigeons();
-        for (int i = 0; i < 100 && x.count(1) < clauses; i++) {
-            due("solve", x.solve(Math.min(4, clauses - x.count(1))), 2);
+    static Subject pigeonsWith(int clauses) {
+        Subject x = pigeons();
+        for (int had = 45; had < clauses; had += 4) {
+            due("solve", x.solve(Math.min(4, clauses - had)), 2);
             x.forget(1);
         }
         due("CLAUSES", x.count(1), clauses);
@@ -237,8 +264,8 @@ abstract class Bench {
      * Parities along the edges of two rings with spokes, one of them odd: 80 clauses of 30 variables
      * that cannot all hold, and that no search with a budget of 200 comes to an end with.
      */
-    static LearntReasons rings() {
-        LearntReasons x = told("grow 30;");
+    static Subject rings() {
+        Subject x = told("grow 30;");
         for (int i = 0; i < 10; i++) {
             tellParity(x, 1 + i, 1 + (i + 1) % 10, i == 0 ? 11 + i : -11 - i);
             tellParity(x, 21 + i, 21 + (i + 3) % 10, -11 - i);
@@ -247,7 +274,7 @@ abstract class Bench {
         return x;
     }
 
-    private static void tellParity(LearntReasons x, int p, int q, int r) {
+    private static void tellParity(Subject x, int p, int q, int r) {
         int[][] rows = {{p, q, r}, {p, -q, -r}, {-p, q, -r}, {-p, -q, r}};
         StringBuilder text = new StringBuilder();
         for (int[] row : rows) {
@@ -257,8 +284,8 @@ abstract class Bench {
     }
 
     /** 80 told clauses, each of one literal. */
-    static LearntReasons fullOfTold() {
-        LearntReasons x = told("grow 9;");
+    static Subject fullOfTold() {
+        Subject x = told("grow 9;");
         dueTold(x, times(80, "1;"), 80);
         return x;
     }

@@ -4,7 +4,7 @@ public final class BoundaryLogTest extends Bench {
     // ---- 24
 
     private static void promise24_noLineYet() {
-        LearntReasons x = told("grow 2;1 2;");
+        Subject x = told("grow 2;1 2;");
         due("line(0, NONE)", x.line(0, NONE), -100);
         due("line(0, 0)", x.line(0, 0), -100);
         x.solve(9);
@@ -12,7 +12,7 @@ public final class BoundaryLogTest extends Bench {
     }
 
     private static void promise24_noSuchLine() {
-        LearntReasons x = told("grow 4;1 3 4;1 3 -4;");
+        Subject x = told("grow 4;1 3 4;1 3 -4;");
         x.solve(9);
         int[] none = {1, 2, 3, -1, 400, 401, MAX, MIN};
         for (int n : none) {
@@ -23,7 +23,7 @@ public final class BoundaryLogTest extends Bench {
     }
 
     private static void promise24_noSuchWhat() {
-        LearntReasons x = told("grow 4;1 3 4;1 3 -4;");
+        Subject x = told("grow 4;1 3 4;1 3 -4;");
         x.solve(9);
         int[] none = {2, 3, 400, -2, -3, -4, MAX, MIN};
         for (int what : none) {
@@ -33,7 +33,7 @@ public final class BoundaryLogTest extends Bench {
     }
 
     private static void promise24_aLineIsNotTheNextOne() {
-        LearntReasons x = told(ALL_FOUR);
+        Subject x = told(ALL_FOUR);
         due("solve", x.solve(9), 0);
         dueLine(x, 0, 1);
         dueLine(x, 1);
@@ -41,7 +41,7 @@ public final class BoundaryLogTest extends Bench {
     }
 
     private static void promise24_theEmptyLineAlone() {
-        LearntReasons x = told("grow 1;1;-1;");
+        Subject x = told("grow 1;1;-1;");
         due("solve", x.solve(1), 0);
         due("line(0, NONE)", x.line(0, NONE), 0);
         due("line(0, 0)", x.line(0, 0), -100);
@@ -51,7 +51,7 @@ public final class BoundaryLogTest extends Bench {
     }
 
     private static void promise24_toldOnesBetweenAreNoLines() {
-        LearntReasons x = told("grow 6;1 2;1 -2;");
+        Subject x = told("grow 6;1 2;1 -2;");
         due("solve", x.solve(9), 1);
         tellMore(x, "5;3 4;3 -4;");
         due("solve", x.solve(9), 1);
@@ -63,7 +63,7 @@ public final class BoundaryLogTest extends Bench {
     }
 
     private static void promise24_asManyAsWereLearnt() {
-        LearntReasons x = pigeonsWith(400);
+        Subject x = pigeonsWith(400);
         due("lines", x.count(7), 355);
         due("line(354, NONE)", x.line(354, NONE), clauseOf(x, 399, NONE));
         due("line(354, 0)", x.line(354, 0), clauseOf(x, 399, 0));
@@ -71,7 +71,7 @@ public final class BoundaryLogTest extends Bench {
     }
 
     private static void promise24_oneThatIsGoneIsALineStill() {
-        LearntReasons x = told("grow 4;1 3 4;1 3 -4;");
+        Subject x = told("grow 4;1 3 4;1 3 -4;");
         x.solve(9);
         x.forget(1);
         due("lines", x.count(7), 1);
@@ -81,27 +81,27 @@ public final class BoundaryLogTest extends Bench {
     // ---- 25
 
     private static void promise25_noLine() {
-        due("of a new object", new LearntReasons().proof(), NONE);
+        due("of a new object", new Subject().proof(), NONE);
         due("without a SEARCH", told(ALL_FOUR).proof(), NONE);
     }
 
     private static void promise25_allLinesAreAccepted() {
-        LearntReasons x = told(ALL_FOUR);
+        Subject x = told(ALL_FOUR);
         x.solve(9);
         due("with the EMPTY line", x.proof(), NONE);
-        LearntReasons full = pigeonsWith(400);
+        Subject full = pigeonsWith(400);
         due("of 355 lines, most of them GONE", full.proof(), NONE);
-        LearntReasons hard = rings();
+        Subject hard = rings();
         hard.solve(200);
         hard.solve(200);
         due("of 320 lines", hard.proof(), NONE);
-        LearntReasons level0 = told("grow 1;1;-1;");
+        Subject level0 = told("grow 1;1;-1;");
         level0.solve(1);
         due("of the EMPTY line alone", level0.proof(), NONE);
     }
 
     private static void promise25_byWhatIsToldLaterToo() {
-        LearntReasons x = told("grow 4;1 3 4;1 3 -4;");
+        Subject x = told("grow 4;1 3 4;1 3 -4;");
         x.solve(9);
         tellMore(x, "3;-1;-3 1;");
         due("proof()", x.proof(), NONE);
@@ -110,21 +110,21 @@ public final class BoundaryLogTest extends Bench {
     }
 
     private static void promise25_askingChangesNothing() {
-        LearntReasons x = rich();
+        Subject x = rich();
         dueRefused(x, "proof()", x::proof, NONE);
     }
 
     // ---- 26
 
     private static void promise26_anEmptyText() {
-        LearntReasons x = told(ALL_FOUR);
+        Subject x = told(ALL_FOUR);
         dueLog(x, "", 0);
         dueLog(x, " \n ", 0);
-        due("of a new object", new LearntReasons().refute(), 0);
+        due("of a new object", new Subject().refute(), 0);
     }
 
     private static void promise26_fromTheFirstOn() {
-        LearntReasons x = told("grow 9;1 2;1 -2;-1 2;-1 -2;");
+        Subject x = told("grow 9;1 2;1 -2;-1 2;-1 -2;");
         dueLog(x, "3;", 0);
         dueLog(x, "3;1;2;", 0);
         dueLog(x, "1;", 1);
@@ -134,7 +134,7 @@ public final class BoundaryLogTest extends Bench {
     }
 
     private static void promise26_byLinesAhead() {
-        LearntReasons x = told("grow 9;1 2 3;1 2 -3;1 -2 4;1 -2 -4;");
+        Subject x = told("grow 9;1 2 3;1 2 -3;1 -2 4;1 -2 -4;");
         dueLog(x, "1;", 0);
         dueLog(x, "1 2;1;", 2);
         dueLog(x, "1;1 2;", 0);
@@ -142,13 +142,13 @@ public final class BoundaryLogTest extends Bench {
     }
 
     private static void promise26_aLineThatIsNotAcceptedHelpsNone() {
-        LearntReasons x = told("grow 9;1 2;");
+        Subject x = told("grow 9;1 2;");
         dueLog(x, "1 2;3;3 4;", 1);
         due("closed()", x.closed(), 0);
     }
 
     private static void promise26_aToldClauseAsALine() {
-        LearntReasons x = told("grow 9;1-2;");
+        Subject x = told("grow 9;1-2;");
         dueLog(x, "1-2;", 1);
         dueLog(x, "-2 1;", 1);
         dueLog(x, "1-2 3;", 1);
@@ -158,7 +158,7 @@ public final class BoundaryLogTest extends Bench {
     }
 
     private static void promise26_learntOnesDoNotHelp() {
-        LearntReasons x = told("grow 9;1 2 3;1 2 -3;1 -2 4;1 -2 -4;");
+        Subject x = told("grow 9;1 2 3;1 2 -3;1 -2 4;1 -2 -4;");
         dueLog(x, "1;", 0);
         due("solve", x.solve(9), 1);
         dueClause(x, 5, 1);
@@ -166,13 +166,13 @@ public final class BoundaryLogTest extends Bench {
     }
 
     private static void promise26_sinceTheLatestNothingStays() {
-        LearntReasons x = told(ALL_FOUR);
+        Subject x = told(ALL_FOUR);
         dueLog(x, "1;;", 2);
         dueLog(x, ";", 0);
     }
 
     private static void promise26_soonerOrLater() {
-        LearntReasons x = told("grow 30;");
+        Subject x = told("grow 30;");
         // told backwards, so that each draws only behind the one that is told after it
         for (int v = 29; v >= 1; v--) {
             tellMore(x, "-" + v + " " + (v + 1) + ";");
@@ -187,23 +187,23 @@ public final class BoundaryLogTest extends Bench {
     }
 
     private static void promise26_theEmptyLineMakesAllFollow() {
-        LearntReasons x = told("grow 3;1;-1;");
+        Subject x = told("grow 3;1;-1;");
         dueLog(x, ";2;-2;3;;", 5);
         due("closed()", x.closed(), 1);
     }
 
     private static void promise26_theMostLines() {
-        LearntReasons x = told("grow 1;" + times(40, "1;-1;"));
+        Subject x = told("grow 1;" + times(40, "1;-1;"));
         due("told ones", x.count(2), 80);
         dueLog(x, times(400, ";"), 400);
         due("closed()", x.closed(), 1);
-        LearntReasons y = told("grow 1;1;");
+        Subject y = told("grow 1;1;");
         dueLog(y, times(200, "1;"), 200);
         dueLog(y, times(400, ";"), 0);
     }
 
     private static void promise26_theLongestLine() {
-        LearntReasons x = told("grow 30;1;");
+        Subject x = told("grow 30;1;");
         StringBuilder line = new StringBuilder();
         for (int v = 1; v <= 30; v++) {
             line.append(' ').append(v);
@@ -213,18 +213,18 @@ public final class BoundaryLogTest extends Bench {
     }
 
     private static void promise26_moreThan80Lines() {
-        LearntReasons x = fullOfTold();
+        Subject x = fullOfTold();
         dueLog(x, times(100, "1;"), 100);
     }
 
     private static void promise26_withoutVariables() {
-        LearntReasons x = new LearntReasons();
+        Subject x = new Subject();
         dueLog(x, ";", 0);
         dueLogFault(x, "1;", 2, 0);
     }
 
     private static void promise26_faults() {
-        LearntReasons x = told("grow 9;1;");
+        Subject x = told("grow 9;1;");
         dueLogFault(x, "1", 1, 1);
         dueLogFault(x, "1 ", 1, 2);
         dueLogFault(x, "1;-", 1, 3);
@@ -248,13 +248,13 @@ public final class BoundaryLogTest extends Bench {
     }
 
     private static void promise26_aFaultBehindALineThatIsNotAccepted() {
-        LearntReasons x = told("grow 9;1;");
+        Subject x = told("grow 9;1;");
         dueLogFault(x, "2;0;", 2, 2);
         dueLogFault(x, "2;3", 1, 3);
     }
 
     private static void promise26_nothingElseChanges() {
-        LearntReasons x = rich();
+        Subject x = rich();
         x.end(0);
         dueLog(x, "1 3;", 1);
         dueLogFault(x, "0;", 2, 0);
@@ -269,7 +269,7 @@ public final class BoundaryLogTest extends Bench {
     // ---- 27
 
     private static void promise27_aheadOfAny() {
-        LearntReasons x = told(ALL_FOUR);
+        Subject x = told(ALL_FOUR);
         due("closed()", x.closed(), NONE);
         x.solve(9);
         due("a SEARCH is none", x.closed(), NONE);
@@ -278,7 +278,7 @@ public final class BoundaryLogTest extends Bench {
     }
 
     private static void promise27_aFaultIsNone() {
-        LearntReasons x = told(ALL_FOUR);
+        Subject x = told(ALL_FOUR);
         dueLogFault(x, "1;;0;", 2, 3);
         due("closed()", x.closed(), NONE);
         dueLog(x, "1;;", 2);
@@ -292,16 +292,16 @@ public final class BoundaryLogTest extends Bench {
     }
 
     private static void promise27_anEmptyText() {
-        LearntReasons x = told(ALL_FOUR);
+        Subject x = told(ALL_FOUR);
         dueLog(x, "", 0);
         due("closed()", x.closed(), 0);
-        LearntReasons y = new LearntReasons();
+        Subject y = new Subject();
         dueLog(y, "", 0);
         due("closed()", y.closed(), 0);
     }
 
     private static void promise27_whereverTheEmptyLineStands() {
-        LearntReasons x = told("grow 3;1;-1;");
+        Subject x = told("grow 3;1;-1;");
         dueLog(x, ";", 1);
         due("alone", x.closed(), 1);
         dueLog(x, ";2;3;", 3);
@@ -315,12 +315,12 @@ public final class BoundaryLogTest extends Bench {
     }
 
     private static void promise27_itMustBeAccepted() {
-        LearntReasons x = told(ALL_FOUR);
+        Subject x = told(ALL_FOUR);
         dueLog(x, ";", 0);
         due("closed()", x.closed(), 0);
         dueLog(x, "1;;", 2);
         due("closed()", x.closed(), 1);
-        LearntReasons y = told("grow 3;1 2;");
+        Subject y = told("grow 3;1 2;");
         dueLog(y, "1 2;;", 1);
         due("closed()", y.closed(), 0);
         dueLog(y, "3;;", 0);
@@ -328,7 +328,7 @@ public final class BoundaryLogTest extends Bench {
     }
 
     private static void promise27_itIsKeptAndGoneBackTo() {
-        LearntReasons x = told(ALL_FOUR);
+        Subject x = told(ALL_FOUR);
         x.keep(0);
         dueLog(x, "1;;", 2);
         x.keep(1);
@@ -341,7 +341,7 @@ public final class BoundaryLogTest extends Bench {
     // ---- 28
 
     private static void promise28_withoutClauses() {
-        LearntReasons x = new LearntReasons();
+        Subject x = new Subject();
         due("of no VARIABLES", x.models(), 1);
         for (int v = 1; v <= 12; v++) {
             x.grow(1);
@@ -355,7 +355,7 @@ public final class BoundaryLogTest extends Bench {
 
     private static void promise28_noneAtAll() {
         for (int v = 1; v <= 12; v++) {
-            LearntReasons x = told("grow " + v + ";1;");
+            Subject x = told("grow " + v + ";1;");
             due("of " + v, x.models(), 1 << (v - 1));
             tellMore(x, "-1;");
             due("none of " + v, x.models(), 0);
@@ -364,7 +364,7 @@ public final class BoundaryLogTest extends Bench {
 
     private static void promise28_one() {
         for (int v = 1; v <= 12; v++) {
-            LearntReasons x = told("grow " + v + ";");
+            Subject x = told("grow " + v + ";");
             for (int k = 1; k <= v; k++) {
                 tellMore(x, (k % 2 == 0 ? "-" : "") + k + ";");
             }
@@ -378,25 +378,26 @@ public final class BoundaryLogTest extends Bench {
     }
 
     private static void promise28_assumptionsAside() {
-        LearntReasons x = told("grow 3;1 2;assume -1 -2;");
+        Subject x = told("grow 3;1 2;assume -1 -2;");
         due("models()", x.models(), 6);
         due("solve", x.solve(1), 0);
         due("models()", x.models(), 6);
     }
 
     private static void promise28_with80Clauses() {
-        LearntReasons x = told("grow 7;");
+        Subject x = told("grow 7;");
         for (int m = 0; m < 80; m++) {
+            StringBuilder text = new StringBuilder();
             for (int v = 1; v <= 7; v++) {
-                x.add((m >> (v - 1) & 1) == 0 ? v : -v);
+                text.append((m >> (v - 1) & 1) == 0 ? " " : "-").append(v);
             }
-            x.close();
+            tellMore(x, text + ";");
         }
         due("each of 80 takes one away", x.models(), 128 - 80);
     }
 
     private static void promise28_askingChangesNothing() {
-        LearntReasons x = rich();
+        Subject x = rich();
         dueRefused(x, "models()", x::models, x.models());
     }
 
@@ -404,14 +405,14 @@ public final class BoundaryLogTest extends Bench {
 
     private static void promise29_withoutClauses() {
         for (int v = 0; v <= 12; v++) {
-            LearntReasons x = v == 0 ? new LearntReasons() : told("grow " + v + ";");
+            Subject x = v == 0 ? new Subject() : told("grow " + v + ";");
             due("so of " + v, x.fixed(true), 0);
             due("not so of " + v, x.fixed(false), 0);
         }
     }
 
     private static void promise29_above12() {
-        LearntReasons x = told("grow 12;12;-11;");
+        Subject x = told("grow 12;12;-11;");
         due("so", x.fixed(true), 1 << 11);
         due("not so", x.fixed(false), 1 << 10);
         x.grow(1);
@@ -420,34 +421,34 @@ public final class BoundaryLogTest extends Bench {
     }
 
     private static void promise29_all12() {
-        LearntReasons x = told("grow 12;1;2;3;4;5;6;7;8;9;10;11;12;");
+        Subject x = told("grow 12;1;2;3;4;5;6;7;8;9;10;11;12;");
         due("so", x.fixed(true), 4095);
         due("not so", x.fixed(false), 0);
-        LearntReasons y = told("grow 12;-1;-2;-3;-4;-5;-6;-7;-8;-9;-10;-11;-12;");
+        Subject y = told("grow 12;-1;-2;-3;-4;-5;-6;-7;-8;-9;-10;-11;-12;");
         due("so", y.fixed(true), 0);
         due("not so", y.fixed(false), 4095);
     }
 
     private static void promise29_eachAlone() {
         for (int v = 1; v <= 12; v++) {
-            LearntReasons x = told("grow 12;" + v + ";");
+            Subject x = told("grow 12;" + v + ";");
             due("so " + v, x.fixed(true), 1 << (v - 1));
             due("not so " + v, x.fixed(false), 0);
-            LearntReasons y = told("grow 12;-" + v + ";");
+            Subject y = told("grow 12;-" + v + ";");
             due("so " + v, y.fixed(true), 0);
             due("not so " + v, y.fixed(false), 1 << (v - 1));
         }
     }
 
     private static void promise29_thereAreNone() {
-        LearntReasons x = told("grow 12;12;-12;");
+        Subject x = told("grow 12;12;-12;");
         due("so", x.fixed(true), NONE);
         due("not so", x.fixed(false), NONE);
         due("so", told(ALL_FOUR).fixed(true), NONE);
     }
 
     private static void promise29_notByDrawingAlone() {
-        LearntReasons x = told("grow 3;1 2;1 -2;");
+        Subject x = told("grow 3;1 2;1 -2;");
         due("follows", x.follows(NONE), 0);
         due("so", x.fixed(true), 1);
         due("ASSUMPTIONS aside", told("grow 3;1 2;assume -1;").fixed(true), 0);
@@ -455,7 +456,7 @@ public final class BoundaryLogTest extends Bench {
     }
 
     private static void promise29_askingChangesNothing() {
-        LearntReasons x = rich();
+        Subject x = rich();
         dueRefused(x, "fixed(true)", () -> x.fixed(true), x.fixed(true));
         dueRefused(x, "fixed(false)", () -> x.fixed(false), x.fixed(false));
     }

@@ -5,18 +5,18 @@ public final class BoundarySearchTest extends Bench {
 
     private static void promise16_noSuchBudget() {
         int[] none = {0, -1, 201, 202, MAX, MIN};
-        LearntReasons x = rich();
+        Subject x = rich();
         for (int n : none) {
             dueRefused(x, "solve(" + n + ")", () -> x.solve(n), NONE);
         }
-        LearntReasons y = new LearntReasons();
+        Subject y = new Subject();
         for (int n : none) {
             dueRefused(y, "solve(" + n + ")", () -> y.solve(n), NONE);
         }
     }
 
     private static void promise16_budgetsFrom1To200() {
-        LearntReasons x = told("grow 2;1 2;");
+        Subject x = told("grow 2;1 2;");
         for (int n = 1; n <= 200; n++) {
             due("solve(" + n + ")", x.solve(n), 1);
         }
@@ -31,17 +31,17 @@ public final class BoundarySearchTest extends Bench {
     }
 
     private static void promise16_aBudgetOf200IsUsedUp() {
-        LearntReasons x = rings();
+        Subject x = rings();
         due("solve(200)", x.solve(200), 2);
         due("conflicts", x.count(10), 200);
         due("CLAUSES", x.count(1), 280);
-        LearntReasons y = rings();
+        Subject y = rings();
         due("solve(199)", y.solve(199), 2);
         due("conflicts", y.count(10), 199);
     }
 
     private static void promise16_theBudgetIsOfThisSearchAlone() {
-        LearntReasons x = rings();
+        Subject x = rings();
         for (int i = 1; i <= 5; i++) {
             due("solve(3)", x.solve(3), 2);
             due("conflicts", x.count(10), 3 * i);
@@ -49,7 +49,7 @@ public final class BoundarySearchTest extends Bench {
     }
 
     private static void promise16_theLastConflictIsLearntWhole() {
-        LearntReasons x = told("grow 4;1 3 4;1 3 -4;");
+        Subject x = told("grow 4;1 3 4;1 3 -4;");
         due("solve(1)", x.solve(1), 2);
         dueClause(x, 2, 3, 1);
         dueCounts(x, 1, 3, 1, 0);
@@ -63,7 +63,7 @@ public final class BoundarySearchTest extends Bench {
     // ---- 16: 400 clauses
 
     private static void promise16_the400thIsLearntStill() {
-        LearntReasons x = pigeonsWith(399);
+        Subject x = pigeonsWith(399);
         int conflicts = x.count(10);
         due("solve(1)", x.solve(1), 2);
         due("CLAUSES", x.count(1), 400);
@@ -72,7 +72,7 @@ public final class BoundarySearchTest extends Bench {
     }
 
     private static void promise16_at400AConflictEnds3() {
-        LearntReasons x = pigeonsWith(399);
+        Subject x = pigeonsWith(399);
         due("solve(200)", x.solve(200), 3);
         due("CLAUSES", x.count(1), 400);
         due("conflicts", x.count(10), 355);
@@ -95,7 +95,7 @@ public final class BoundarySearchTest extends Bench {
     }
 
     private static void promise16_at400With80Told() {
-        LearntReasons x = rings();
+        Subject x = rings();
         due("solve(200)", x.solve(200), 2);
         due("solve(200)", x.solve(200), 3);
         due("CLAUSES", x.count(1), 400);
@@ -104,7 +104,7 @@ public final class BoundarySearchTest extends Bench {
     }
 
     private static void promise16_at400AConflictOfLevel0Ends0() {
-        LearntReasons x = pigeonsWith(398);
+        Subject x = pigeonsWith(398);
         tellMore(x, "1;-1;");
         due("CLAUSES", x.count(1), 400);
         due("solve", x.solve(1), 0);
@@ -115,7 +115,7 @@ public final class BoundarySearchTest extends Bench {
     }
 
     private static void promise16_at400AnAssumptionThatIsFalseEnds0() {
-        LearntReasons x = pigeonsWith(399);
+        Subject x = pigeonsWith(399);
         tellMore(x, "1;assume -1;");
         due("solve", x.solve(1), 0);
         due("core()", x.core(), 1);
@@ -124,7 +124,7 @@ public final class BoundarySearchTest extends Bench {
 
     /** Pigeons who may also stay away (21): there is a model, but not under the assumption that none does. */
     private static void promise16_at400AModelEnds1() {
-        LearntReasons x = told("grow 21;1 2 3 4 21;5 6 7 8 21;9 10 11 12 21;13 14 15 16 21;17 18 19 20 21;assume -21;");
+        Subject x = told("grow 21;1 2 3 4 21;5 6 7 8 21;9 10 11 12 21;13 14 15 16 21;17 18 19 20 21;assume -21;");
         for (int hole = 1; hole <= 4; hole++) {
             for (int p = hole; p <= 20; p += 4) {
                 for (int q = p + 4; q <= 20; q += 4) {
@@ -149,22 +149,22 @@ public final class BoundarySearchTest extends Bench {
 
     private static void promise16_a_theLeastNumber() {
         // -3, -1, then 2 by clause 0: clauses 1 and 2 are all false at once
-        LearntReasons x = told("grow 3;1 2;3 1 -2;1 -2;assume -3;");
+        Subject x = told("grow 3;1 2;3 1 -2;1 -2;assume -3;");
         due("solve(1)", x.solve(1), 2);
         dueClause(x, 3, 1, 3);
-        LearntReasons y = told("grow 3;1 2;1 -2;3 1 -2;assume -3;");
+        Subject y = told("grow 3;1 2;1 -2;3 1 -2;assume -3;");
         due("solve(1)", y.solve(1), 2);
         dueClause(y, 3, 1);
     }
 
     private static void promise16_a_aheadOfB() {
-        LearntReasons x = told("grow 3;1;-1;2;");
+        Subject x = told("grow 3;1;-1;2;");
         due("solve", x.solve(1), 0);
         dueCounts(x, 0, 0, 1, 0);
     }
 
     private static void promise16_a_atLevel0ItIsRefuted() {
-        LearntReasons x = told("grow 1;1;-1;");
+        Subject x = told("grow 1;1;-1;");
         due("solve(1)", x.solve(1), 0);
         due("REFUTED", x.count(8), 1);
         due("core()", x.core(), 0);
@@ -175,14 +175,14 @@ public final class BoundarySearchTest extends Bench {
     }
 
     private static void promise16_a_atLevel0WithAssumptionsItIsRefuted() {
-        LearntReasons x = told("grow 3;1;-1;assume 2 3;");
+        Subject x = told("grow 3;1;-1;assume 2 3;");
         due("solve(1)", x.solve(1), 0);
         due("REFUTED", x.count(8), 1);
         due("core()", x.core(), 0);
     }
 
     private static void promise16_a_refutedEndsAtOnceFromNowOn() {
-        LearntReasons x = told("grow 3;1;-1;");
+        Subject x = told("grow 3;1;-1;");
         due("solve(1)", x.solve(1), 0);
         due("PHASE of 1", x.variable(1, 0), 1);
         tellMore(x, "phase -1;2;assume 3;");
@@ -197,16 +197,16 @@ public final class BoundarySearchTest extends Bench {
 
     private static void promise16_b_theLeastNumberIsTheReason() {
         // -2 is assumed, -1 decided; 3 comes by the first of two clauses
-        LearntReasons x = told("grow 3;1 2 3;1 3;-3 1;assume -2;");
+        Subject x = told("grow 3;1 2 3;1 3;-3 1;assume -2;");
         due("solve(1)", x.solve(1), 2);
         dueClause(x, 3, 1, 2);
-        LearntReasons y = told("grow 3;1 3;1 2 3;-3 1;assume -2;");
+        Subject y = told("grow 3;1 3;1 2 3;-3 1;assume -2;");
         due("solve(1)", y.solve(1), 2);
         dueClause(y, 3, 1);
     }
 
     private static void promise16_b_aheadOfC() {
-        LearntReasons x = told("grow 1;-1;assume 1;");
+        Subject x = told("grow 1;-1;assume 1;");
         due("solve(1)", x.solve(1), 0);
         dueCounts(x, 0, 0, 1, 0);
         due("core()", x.core(), 1);
@@ -215,30 +215,30 @@ public final class BoundarySearchTest extends Bench {
     }
 
     private static void promise16_c_theFirstOfThem() {
-        LearntReasons x = told("grow 3;-1 -2;assume 1 2 3;");
+        Subject x = told("grow 3;-1 -2;assume 1 2 3;");
         due("solve(1)", x.solve(1), 0);
         due("core()", x.core(), 3);
         due("PHASE of 3: it was not taken", x.variable(3, 0), 0);
-        LearntReasons y = told("grow 3;-1 -2;assume 3 2 1;");
+        Subject y = told("grow 3;-1 -2;assume 3 2 1;");
         due("solve(1)", y.solve(1), 0);
         due("core()", y.core(), 6);
         due("PHASE of 3", y.variable(3, 0), 1);
     }
 
     private static void promise16_c_aheadOfD() {
-        LearntReasons x = told("grow 1;-1;assume 1;");
+        Subject x = told("grow 1;-1;assume 1;");
         due("nothing is OPEN, and yet", x.solve(1), 0);
     }
 
     private static void promise16_c_aheadOfE() {
-        LearntReasons x = told("grow 8;assume 8 -7 6 -5 4 -3 2 -1;");
+        Subject x = told("grow 8;assume 8 -7 6 -5 4 -3 2 -1;");
         due("solve(1)", x.solve(1), 1);
         dueCounts(x, 0, 0, 0, 0);
         dueModel(x, 0, 1, 0, 1, 0, 1, 0, 1);
     }
 
     private static void promise16_d_ofNoVariables() {
-        LearntReasons x = new LearntReasons();
+        Subject x = new Subject();
         due("solve(1)", x.solve(1), 1);
         dueCounts(x, 0, 0, 0, 0);
         due("count(14)", x.count(14), 1);
@@ -247,14 +247,14 @@ public final class BoundarySearchTest extends Bench {
     }
 
     private static void promise16_d_allDrawn() {
-        LearntReasons x = told("grow 2;1;-2;");
+        Subject x = told("grow 2;1;-2;");
         due("solve(1)", x.solve(1), 1);
         dueCounts(x, 0, 0, 2, 0);
         dueModel(x, 1, 0);
     }
 
     private static void promise16_d_all30Decided() {
-        LearntReasons x = told("grow 30;phase 30;");
+        Subject x = told("grow 30;phase 30;");
         due("solve(1)", x.solve(1), 1);
         dueCounts(x, 0, 30, 0, 0);
         due("model(29)", x.model(29), 0);
@@ -264,53 +264,53 @@ public final class BoundarySearchTest extends Bench {
 
     private static void promise16_e_theGreatestScore() {
         // 3 is learnt; then 4 (14) is decided ahead of 1 and 2 (0), and -1 is drawn
-        LearntReasons x = told("grow 4;3 4;3 -4;-4 -1;");
+        Subject x = told("grow 4;3 4;3 -4;-4 -1;");
         due("solve(9)", x.solve(9), 1);
         dueCounts(x, 1, 5, 2, 0);
         dueModel(x, 0, 0, 1, 1);
     }
 
     private static void promise16_e_ofLikeOnesTheLeast() {
-        LearntReasons x = told("grow 2;1 2;");
+        Subject x = told("grow 2;1 2;");
         due("solve(9)", x.solve(9), 1);
         dueModel(x, 0, 1);
         // 4 3 is learnt, it starts anew; of 3, 4, 5 (14 each) 3 is decided, and 4 is drawn
-        LearntReasons y = told("grow 5;3 4 5;3 4 -5;");
+        Subject y = told("grow 5;3 4 5;3 4 -5;");
         y.unit(1);
         due("solve(9)", y.solve(9), 1);
         dueCounts(y, 1, 8, 2, 1);
     }
 
     private static void promise16_e_asItsPhaseTells() {
-        LearntReasons x = told("grow 3;phase 1 3;");
+        Subject x = told("grow 3;phase 1 3;");
         due("solve(9)", x.solve(9), 1);
         dueModel(x, 1, 0, 1);
     }
 
     private static void promise16_phasesAtEachEnd() {
-        LearntReasons model = told("grow 3;1 -2;2;");
+        Subject model = told("grow 3;1 -2;2;");
         due("solve", model.solve(1), 1);
         duePhases(model, 1, 1, 0);
-        LearntReasons refuted = told("grow 3;1;2;-1 -2;");
+        Subject refuted = told("grow 3;1;2;-1 -2;");
         due("solve", refuted.solve(1), 0);
         duePhases(refuted, 1, 1, 0);
-        LearntReasons assumed = told("grow 3;-1 2;assume 1 -2 3;");
+        Subject assumed = told("grow 3;-1 2;assume 1 -2 3;");
         due("solve", assumed.solve(1), 0);
         duePhases(assumed, 1, 1, 0);
-        LearntReasons back = told("grow 3;-2;phase 2;");
+        Subject back = told("grow 3;-2;phase 2;");
         due("solve", back.solve(1), 1);
         duePhases(back, 0, 0, 0);
     }
 
     private static void promise16_phasesAtTheEnd3() {
-        LearntReasons x = pigeonsWith(400);
+        Subject x = pigeonsWith(400);
         tellMore(x, "grow 1;assume 21;");
         due("PHASE ahead", x.variable(21, 0), 0);
         due("solve", x.solve(1), 3);
         due("PHASE of what was assumed", x.variable(21, 0), 1);
     }
 
-    private static void duePhases(LearntReasons x, int... phases) {
+    private static void duePhases(Subject x, int... phases) {
         for (int v = 1; v <= phases.length; v++) {
             due("PHASE of " + v, x.variable(v, 0), phases[v - 1]);
         }
@@ -319,7 +319,7 @@ public final class BoundarySearchTest extends Bench {
     // ---- 16: what is learnt
 
     private static void promise16_learnt_oneOfLevelNowIsEnough() {
-        LearntReasons x = told("grow 4;1 2 3;-3 4 1;-3 -4 1;");
+        Subject x = told("grow 4;1 2 3;-3 4 1;-3 -4 1;");
         // -1, -2, 3 by clause 0, 4 by clause 1, clash 2: of 1, 3, 4 goes 4; 3 alone is of LEVEL now
         due("solve(1)", x.solve(1), 2);
         dueClause(x, 3, -3, 1);
@@ -328,7 +328,7 @@ public final class BoundarySearchTest extends Bench {
 
     private static void promise16_learnt_whatHadNoPartInItIsNotSeen() {
         // -5, -1, then 2, 3, 4 by clauses 0 to 2, clash 3: of 1, 4 goes 4 for 2, then 2; 3 stands between them
-        LearntReasons x = told("grow 5;1 2;1 5 3;-2 4;1 -4;assume -5;");
+        Subject x = told("grow 5;1 2;1 5 3;-2 4;1 -4;assume -5;");
         due("solve(1)", x.solve(1), 2);
         dueClause(x, 4, 1);
         due("SCORE of 3", x.variable(3, 1), 0);
@@ -337,14 +337,14 @@ public final class BoundarySearchTest extends Bench {
     }
 
     private static void promise16_learnt_withoutThoseOfLevel0() {
-        LearntReasons x = told("grow 5;5;1 -2 -5;1 2 3 4;1 2 3 -4 -5;");
+        Subject x = told("grow 5;5;1 -2 -5;1 2 3 4;1 2 3 -4 -5;");
         due("solve(1)", x.solve(1), 2);
         dueClause(x, 4, 3, 1);
         due("SCORE of 5", x.variable(5, 1), 0);
     }
 
     private static void promise16_learnt_ofMoreThanEight() {
-        LearntReasons x = told("grow 30;1 2 3 4 5 6 26 27;7 8 9 10 11 12 -27 28;"
+        Subject x = told("grow 30;1 2 3 4 5 6 26 27;7 8 9 10 11 12 -27 28;"
             + "13 14 15 16 17 18 -28 29;19 20 21 22 23 24 -29 30;25 26 -30;");
         due("solve(1)", x.solve(1), 2);
         int[] falling = new int[26];
@@ -358,20 +358,20 @@ public final class BoundarySearchTest extends Bench {
     }
 
     private static void promise16_learnt_ofLikeLevelsByVariablesRising() {
-        LearntReasons x = told("grow 5;1 3;1 2;-3 -2 4 5;-3 -2 4 -5;");
+        Subject x = told("grow 5;1 3;1 2;-3 -2 4 5;-3 -2 4 -5;");
         due("solve(1)", x.solve(1), 2);
         dueClause(x, 4, 4, -2, -3);
     }
 
     private static void promise16_trimmed_asItWasAheadOfAllDropping() {
-        LearntReasons x = told("grow 5;1 2;-2 3;1 -2 -3 4 5;1 -2 -3 4 -5;");
+        Subject x = told("grow 5;1 2;-2 3;1 -2 -3 4 5;1 -2 -3 4 -5;");
         due("solve(1)", x.solve(1), 2);
         dueClause(x, 4, 4, 1);
         due("SCORE of 3: what was dropped was SEEN", x.variable(3, 1), 14);
     }
 
     private static void promise16_trimmed_notByOneThatIsNotLeft() {
-        LearntReasons x = told("grow 6;1 2 3;-3 4 5;-3 4 -5;");
+        Subject x = told("grow 6;1 2 3;-3 4 5;-3 4 -5;");
         // -1, -2, 3 by clause 0; -4, 5 by clause 1, clash 2: 4 and 3, whose REASON has 1 and 2
         due("solve(1)", x.solve(1), 2);
         dueClause(x, 3, 4, -3);
@@ -379,14 +379,14 @@ public final class BoundarySearchTest extends Bench {
 
     private static void promise16_trimmed_someOfTheReasonAreLeft() {
         // 2 is drawn by 1 alone; 3 by 1 and 2, but 2 is not in what is left
-        LearntReasons x = told("grow 6;1 2;1 -2 3;-3 1 4 5;-3 1 4 -5;");
+        Subject x = told("grow 6;1 2;1 -2 3;-3 1 4 5;-3 1 4 -5;");
         due("solve(1)", x.solve(1), 2);
         dueClause(x, 4, 4, 1, -3);
     }
 
     /** 15 blocks of two: the first is seen once and fades 14 times, the last one not at all. */
     private static void promise16_scores_lessByAnEighthDownwards() {
-        LearntReasons x = told("grow 30;");
+        Subject x = told("grow 30;");
         for (int v = 1; v <= 29; v += 2) {
             tellMore(x, v + " " + (v + 1) + ";" + v + " -" + (v + 1) + ";");
         }
@@ -400,7 +400,7 @@ public final class BoundarySearchTest extends Bench {
     }
 
     private static void promise16_scores_ofWhatIsSeenAgain() {
-        LearntReasons x = told("grow 5;1 2 3;1 2 -3;1 -2 4;1 -2 -4;");
+        Subject x = told("grow 5;1 2 3;1 2 -3;1 -2 4;1 -2 -4;");
         due("solve(9)", x.solve(9), 1);
         dueCounts(x, 2, 6, 2, 0);
         int[] scores = {30 - 3, 30 - 3, 14 - 1, 16 - 2, 0};
@@ -411,7 +411,7 @@ public final class BoundarySearchTest extends Bench {
 
     private static void promise16_leap_to0BehindALongerOne() {
         // 2 1 is learnt at LEVEL 2, then 1 at LEVEL 1
-        LearntReasons x = told("grow 5;1 2 3;1 2 -3;1 -2 4;1 -2 -4;");
+        Subject x = told("grow 5;1 2 3;1 2 -3;1 -2 4;1 -2 -4;");
         due("solve(2)", x.solve(2), 2);
         dueClause(x, 4, 2, 1);
         dueClause(x, 5, 1);
@@ -422,7 +422,7 @@ public final class BoundarySearchTest extends Bench {
 
     private static void promise16_leap_to0WithoutAnother() {
         // the decision on 1 leaves, too, and is made anew
-        LearntReasons x = told("grow 3;2 3;2 -3;");
+        Subject x = told("grow 3;2 3;2 -3;");
         due("solve(9)", x.solve(9), 1);
         dueClause(x, 2, 2);
         dueCounts(x, 1, 4, 1, 0);
@@ -431,11 +431,11 @@ public final class BoundarySearchTest extends Bench {
 
     private static void promise16_leap_toTheGreatestOfTheOthers() {
         // 1, 2, 3 are decided; 3 1 is learnt: 1 stays, 2 and then 4 are decided anew
-        LearntReasons x = told("grow 4;1 3 4;1 3 -4;");
+        Subject x = told("grow 4;1 3 4;1 3 -4;");
         due("solve(9)", x.solve(9), 1);
         dueCounts(x, 1, 5, 1, 0);
         // 1, 2, 3, 4 are decided; 4 3 1 is learnt: 1, 2, 3 stay, and 5 is decided
-        LearntReasons y = told("grow 5;1 3 4 5;1 3 4 -5;");
+        Subject y = told("grow 5;1 3 4 5;1 3 4 -5;");
         due("solve(9)", y.solve(9), 1);
         dueClause(y, 2, 4, 3, 1);
         dueCounts(y, 1, 5, 1, 0);
@@ -466,7 +466,7 @@ public final class BoundarySearchTest extends Bench {
     }
 
     private static void dueAnews(int unit, int budget, int anews) {
-        LearntReasons x = rings();
+        Subject x = rings();
         x.unit(unit);
         due("solve(" + budget + ")", x.solve(budget), 2);
         due("ANEW with " + unit + " in " + budget, x.count(13), anews);
@@ -500,19 +500,19 @@ public final class BoundarySearchTest extends Bench {
     }
 
     private static void promise16_anew_ofThisSearchAlone() {
-        LearntReasons x = rings();
+        Subject x = rings();
         x.unit(1);
         for (int i = 1; i <= 3; i++) {
             due("solve(3)", x.solve(3), 2);
             due("ANEW at 1 and 2 of each", x.count(13), 2 * i);
         }
-        LearntReasons one = rings();
+        Subject one = rings();
         one.unit(1);
         for (int i = 1; i <= 5; i++) {
             due("solve(1)", one.solve(1), 2);
             due("ANEW at 1 of each", one.count(13), i);
         }
-        LearntReasons y = rings();
+        Subject y = rings();
         y.unit(3);
         for (int i = 1; i <= 5; i++) {
             due("solve(2)", y.solve(2), 2);
@@ -521,7 +521,7 @@ public final class BoundarySearchTest extends Bench {
     }
 
     private static void promise16_anew_atLevel0Too() {
-        LearntReasons x = told("grow 2;1 2;1 -2;");
+        Subject x = told("grow 2;1 2;1 -2;");
         x.unit(1);
         due("solve(9)", x.solve(9), 1);
         dueClause(x, 2, 1);
@@ -530,14 +530,14 @@ public final class BoundarySearchTest extends Bench {
 
     private static void promise16_anew_allAboveLevel0Leaves() {
         // 3 1 is learnt, LEAP to 1; then 1 leaves, too, and 1 2 4 are decided once more
-        LearntReasons x = told("grow 4;1 3 4;1 3 -4;");
+        Subject x = told("grow 4;1 3 4;1 3 -4;");
         x.unit(1);
         due("solve(9)", x.solve(9), 1);
         dueCounts(x, 1, 6, 2, 1);
     }
 
     private static void promise16_anew_assumptionsAreTakenAgain() {
-        LearntReasons x = told("grow 4;1 3 4;1 3 -4;assume -1 -2;");
+        Subject x = told("grow 4;1 3 4;1 3 -4;assume -1 -2;");
         x.unit(1);
         due("solve(9)", x.solve(9), 1);
         dueModel(x, 0, 0, 1, 1);
@@ -547,7 +547,7 @@ public final class BoundarySearchTest extends Bench {
     // ---- 17
 
     private static void promise17_noSuchWhat() {
-        LearntReasons x = rich();
+        Subject x = rich();
         int[] none = {-1, -2, 15, 16, MAX, MIN};
         for (int n : none) {
             dueRefused(x, "count(" + n + ")", () -> x.count(n), NONE);
@@ -555,7 +555,7 @@ public final class BoundarySearchTest extends Bench {
     }
 
     private static void promise17_theGreatest() {
-        LearntReasons x = rings();
+        Subject x = rings();
         tellMore(x, "assume 1 2 3 4 5 6 7 8;");
         x.free();
         x.unit(50);
@@ -576,7 +576,7 @@ public final class BoundarySearchTest extends Bench {
     }
 
     private static void promise17_3_withoutThoseThatAreGone() {
-        LearntReasons x = rings();
+        Subject x = rings();
         due("solve", x.solve(20), 2);
         due("count(3)", x.count(3), 20);
         due("forget(1)", x.forget(1), 20);
@@ -587,7 +587,7 @@ public final class BoundarySearchTest extends Bench {
     }
 
     private static void promise17_14_eachEnd() {
-        LearntReasons x = told(ALL_FOUR);
+        Subject x = told(ALL_FOUR);
         due("ahead of any", x.count(14), NONE);
         x.solve(0);
         due("NONE was no SEARCH", x.count(14), NONE);
@@ -597,16 +597,16 @@ public final class BoundarySearchTest extends Bench {
         due("NONE was no SEARCH", x.count(14), 2);
         x.solve(1);
         due("count(14)", x.count(14), 0);
-        LearntReasons y = new LearntReasons();
+        Subject y = new Subject();
         y.solve(1);
         due("count(14)", y.count(14), 1);
-        LearntReasons z = pigeonsWith(400);
+        Subject z = pigeonsWith(400);
         z.solve(1);
         due("count(14)", z.count(14), 3);
     }
 
     private static void promise17_10to13_ofAllSearchesTogether() {
-        LearntReasons x = told("grow 4;1 3 4;1 3 -4;");
+        Subject x = told("grow 4;1 3 4;1 3 -4;");
         x.unit(1);
         x.solve(9);
         dueCounts(x, 1, 6, 2, 1);
@@ -620,7 +620,7 @@ public final class BoundarySearchTest extends Bench {
     // ---- 18
 
     private static void promise18_noSuchClause() {
-        LearntReasons x = rich();
+        Subject x = rich();
         int[] none = {-1, 4, 5, 399, 400, 401, MAX, MIN};
         int[] whats = {NONE, 0, -2, -3};
         for (int n : none) {
@@ -629,11 +629,11 @@ public final class BoundarySearchTest extends Bench {
             }
         }
         due("clause(3, NONE)", clauseOf(x, 3, NONE), 2);
-        due("of a new object", clauseOf(new LearntReasons(), 0, NONE), THREW);
+        due("of a new object", clauseOf(new Subject(), 0, NONE), THREW);
     }
 
     private static void promise18_noSuchWhat() {
-        LearntReasons x = told("grow 8;1;1 2 3 4 5 6 7 8;");
+        Subject x = told("grow 8;1;1 2 3 4 5 6 7 8;");
         int[] none = {-4, -5, -100, 8, 9, 400, MAX, MIN};
         for (int what : none) {
             due("clause(1, " + what + ")", clauseOf(x, 1, what), THREW);
@@ -645,7 +645,7 @@ public final class BoundarySearchTest extends Bench {
     }
 
     private static void promise18_whetherLearntWhetherGone() {
-        LearntReasons x = told("grow 4;1 3 4;1 3 -4;");
+        Subject x = told("grow 4;1 3 4;1 3 -4;");
         x.solve(9);
         due("told", clauseOf(x, 1, -2), 0);
         due("LEARNT", clauseOf(x, 2, -2), 1);
@@ -658,14 +658,14 @@ public final class BoundarySearchTest extends Bench {
     }
 
     private static void promise18_the400th() {
-        LearntReasons x = pigeonsWith(400);
+        Subject x = pigeonsWith(400);
         due("clause(399, -2)", clauseOf(x, 399, -2), 1);
         due("clause(399, NONE)", clauseOf(x, 399, NONE), x.line(354, NONE));
         due("clause(400, NONE)", clauseOf(x, 400, NONE), THREW);
     }
 
     private static void promise18_oneThatIsBeingToldIsNone() {
-        LearntReasons x = told("grow 2;");
+        Subject x = told("grow 2;");
         x.add(1);
         due("clause(0, NONE)", clauseOf(x, 0, NONE), THREW);
     }
@@ -673,7 +673,7 @@ public final class BoundarySearchTest extends Bench {
     // ---- 19
 
     private static void promise19_noneSuch() {
-        LearntReasons x = told("grow 9;assume 9-8 7-6 5-4 3;");
+        Subject x = told("grow 9;assume 9-8 7-6 5-4 3;");
         int[] none = {7, 8, 9, 400, -1, -2, MAX, MIN};
         for (int n : none) {
             due("assumption(" + n + ")", x.assumption(n), 0);
@@ -689,14 +689,14 @@ public final class BoundarySearchTest extends Bench {
     // ---- 20
 
     private static void promise20_aheadOfAny() {
-        LearntReasons x = told("grow 2;1;-1;");
+        Subject x = told("grow 2;1;-1;");
         due("model(1)", x.model(1), NONE);
         due("solve", x.solve(1), 0);
         due("it did not end 1", x.model(1), NONE);
     }
 
     private static void promise20_noSuchVariable() {
-        LearntReasons x = told("grow 2;1;");
+        Subject x = told("grow 2;1;");
         x.solve(1);
         int[] none = {0, -1, -2, 3, 30, 31, 32, 33, 34, MAX, MIN};
         for (int n : none) {
@@ -706,20 +706,20 @@ public final class BoundarySearchTest extends Bench {
     }
 
     private static void promise20_noSuchVariableThen() {
-        LearntReasons x = told("grow 2;");
+        Subject x = told("grow 2;");
         x.solve(1);
         x.grow(1);
         due("model(3)", x.model(3), NONE);
         x.solve(1);
         due("model(3)", x.model(3), 0);
-        LearntReasons y = new LearntReasons();
+        Subject y = new Subject();
         y.solve(1);
         y.grow(1);
         due("model(1)", y.model(1), NONE);
     }
 
     private static void promise20_theLatestThatEnded1() {
-        LearntReasons x = told("grow 2;1 2;");
+        Subject x = told("grow 2;1 2;");
         x.solve(1);
         tellMore(x, "assume -1 -2;");
         due("solve", x.solve(1), 0);
@@ -736,7 +736,7 @@ public final class BoundarySearchTest extends Bench {
     // ---- 21
 
     private static void promise21_none() {
-        LearntReasons x = told("grow 4;1 3 4;1 3 -4;assume -1 -3;");
+        Subject x = told("grow 4;1 3 4;1 3 -4;assume -1 -3;");
         due("ahead of any", x.core(), NONE);
         due("solve", x.solve(1), 2);
         due("it ended 2", x.core(), NONE);
@@ -745,34 +745,34 @@ public final class BoundarySearchTest extends Bench {
         x.free();
         due("solve", x.solve(1), 1);
         due("it ended 1", x.core(), NONE);
-        LearntReasons y = pigeonsWith(400);
+        Subject y = pigeonsWith(400);
         due("solve", y.solve(1), 3);
         due("it ended 3", y.core(), NONE);
     }
 
     private static void promise21_allEight() {
-        LearntReasons x = told("grow 9;-1 -2 -3 -4 -5 -6 -7 -8;assume 1 2 3 4 5 6 7 8;");
+        Subject x = told("grow 9;-1 -2 -3 -4 -5 -6 -7 -8;assume 1 2 3 4 5 6 7 8;");
         due("solve", x.solve(1), 0);
         due("core()", x.core(), 255);
     }
 
     private static void promise21_theFirstAndTheLast() {
-        LearntReasons x = told("grow 9;-1 -9;assume 1 2 3 4 5 6 7 9;");
+        Subject x = told("grow 9;-1 -9;assume 1 2 3 4 5 6 7 9;");
         due("solve", x.solve(1), 0);
         due("core()", x.core(), 1 | 128);
     }
 
     private static void promise21_falseAtLevel0() {
-        LearntReasons x = told("grow 9;-8;assume 1 2 3 4 5 6 7 8;");
+        Subject x = told("grow 9;-8;assume 1 2 3 4 5 6 7 8;");
         due("solve", x.solve(1), 0);
         due("the 8th alone", x.core(), 128);
-        LearntReasons y = told("grow 2;-1 2;1;assume -2;");
+        Subject y = told("grow 2;-1 2;1;assume -2;");
         due("solve", y.solve(1), 0);
         due("what came at LEVEL 0 is none of it", y.core(), 1);
     }
 
     private static void promise21_withAll30OnTheTrail() {
-        LearntReasons x = told("grow 30;assume 1;");
+        Subject x = told("grow 30;assume 1;");
         for (int v = 1; v <= 29; v++) {
             tellMore(x, "-" + v + " " + (v + 1) + ";");
         }
@@ -784,13 +784,13 @@ public final class BoundarySearchTest extends Bench {
 
     private static void promise21_thoseThatWereDrawnAreNoneOfIt() {
         // 2 comes by 1 ahead of being taken; 3 is FALSE by 2: the CORE is 1 and 3
-        LearntReasons x = told("grow 3;-1 2;-2 -3;assume 1 2 3;");
+        Subject x = told("grow 3;-1 2;-2 -3;assume 1 2 3;");
         due("solve", x.solve(1), 0);
         due("core()", x.core(), 5);
     }
 
     private static void promise21_byTheirPlacesThen() {
-        LearntReasons x = told("grow 4;-1 2;assume 4 1 -2;");
+        Subject x = told("grow 4;-1 2;assume 4 1 -2;");
         due("solve", x.solve(1), 0);
         due("core()", x.core(), 6);
         tellMore(x, "assume 1;");
@@ -802,7 +802,7 @@ public final class BoundarySearchTest extends Bench {
     }
 
     private static void promise21_0IfItWasRefuted() {
-        LearntReasons x = told("grow 3;-1;assume 1;");
+        Subject x = told("grow 3;-1;assume 1;");
         due("solve", x.solve(1), 0);
         due("core()", x.core(), 1);
         tellMore(x, "1;");
@@ -816,7 +816,7 @@ public final class BoundarySearchTest extends Bench {
     // ---- 22
 
     private static void promise22_noSuchVariable() {
-        LearntReasons x = rich();
+        Subject x = rich();
         int[] none = {0, -1, -9, 10, 30, 31, 33, MAX, MIN};
         for (int n : none) {
             for (int what = 0; what <= 2; what++) {
@@ -829,7 +829,7 @@ public final class BoundarySearchTest extends Bench {
     }
 
     private static void promise22_anotherWhat() {
-        LearntReasons x = rich();
+        Subject x = rich();
         int[] none = {-1, -2, 3, 4, MAX, MIN};
         for (int what : none) {
             due("variable(1, " + what + ")", x.variable(1, what), NONE);
@@ -837,7 +837,7 @@ public final class BoundarySearchTest extends Bench {
     }
 
     private static void promise22_atFirst() {
-        LearntReasons x = told("grow 30;");
+        Subject x = told("grow 30;");
         for (int v = 1; v <= 30; v++) {
             for (int what = 0; what <= 2; what++) {
                 due("variable(" + v + ", " + what + ")", x.variable(v, what), 0);
@@ -846,7 +846,7 @@ public final class BoundarySearchTest extends Bench {
     }
 
     private static void promise22_2_eitherWayAndNotGone() {
-        LearntReasons x = told("grow 4;1 3 4;1 3 -4;");
+        Subject x = told("grow 4;1 3 4;1 3 -4;");
         due("of 4", x.variable(4, 2), 2);
         due("of 2", x.variable(2, 2), 0);
         x.solve(9);
@@ -863,14 +863,14 @@ public final class BoundarySearchTest extends Bench {
     // ---- 23
 
     private static void promise23_nothingFollows() {
-        LearntReasons x = told("grow 3;1 2;assume -1;");
+        Subject x = told("grow 3;1 2;assume -1;");
         due("follows(NONE)", x.follows(NONE), 0);
         due("follows(0)", x.follows(0), 0);
-        due("of a new object", new LearntReasons().follows(NONE), 0);
+        due("of a new object", new Subject().follows(NONE), 0);
     }
 
     private static void promise23_all30Follow() {
-        LearntReasons x = told("grow 30;");
+        Subject x = told("grow 30;");
         for (int v = 1; v <= 29; v++) {
             tellMore(x, v + " " + (v + 1) + ";-" + v + "-" + (v + 1) + ";");
         }
@@ -883,7 +883,7 @@ public final class BoundarySearchTest extends Bench {
     }
 
     private static void promise23_noneSuch() {
-        LearntReasons x = told("grow 3;2;-2 -3;");
+        Subject x = told("grow 3;2;-2 -3;");
         int[] none = {2, 3, 29, 30, 31, 400, -2, -3, MAX, MIN};
         for (int n : none) {
             dueRefused(x, "follows(" + n + ")", () -> x.follows(n), 0);
@@ -892,7 +892,7 @@ public final class BoundarySearchTest extends Bench {
     }
 
     private static void promise23_theLeastNumberComesFirst() {
-        LearntReasons x = told("grow 4;-4 3;4;2;-2 1;");
+        Subject x = told("grow 4;-4 3;4;2;-2 1;");
         int[] order = {4, 3, 2, 1};
         for (int i = 0; i < 4; i++) {
             due("follows(" + i + ")", x.follows(i), order[i]);
@@ -900,7 +900,7 @@ public final class BoundarySearchTest extends Bench {
     }
 
     private static void promise23_100BehindAllThat() {
-        LearntReasons x = told("grow 3;1;-1;2;-2 3;");
+        Subject x = told("grow 3;1;-1;2;-2 3;");
         due("follows(NONE)", x.follows(NONE), 100);
         int[] order = {1, 2, 3, 0};
         for (int i = 0; i < 4; i++) {
@@ -915,7 +915,7 @@ public final class BoundarySearchTest extends Bench {
     }
 
     private static void promise23_learntOnesTooGoneOnesNot() {
-        LearntReasons x = told("grow 4;1 3 4;1 3 -4;");
+        Subject x = told("grow 4;1 3 4;1 3 -4;");
         x.solve(9);
         tellMore(x, "-1;");
         due("follows(NONE)", x.follows(NONE), 2);
@@ -926,7 +926,7 @@ public final class BoundarySearchTest extends Bench {
     }
 
     private static void promise23_askingChangesNothing() {
-        LearntReasons x = rich();
+        Subject x = rich();
         for (int i = -2; i <= 30; i++) {
             int at = i;
             String before = pictureOf(x);

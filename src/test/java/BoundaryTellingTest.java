@@ -5,7 +5,7 @@ public final class BoundaryTellingTest extends Bench {
     // ---- the object
 
     private static void terms_the512thCallStillAnswers() {
-        LearntReasons x = new LearntReasons();
+        Subject x = new Subject();
         due("call 1", x.grow(30), 30);
         for (int i = 2; i <= 511; i++) {
             due("call " + i, x.phase(i % 2 == 0 ? 30 : -30), true);
@@ -14,38 +14,55 @@ public final class BoundaryTellingTest extends Bench {
     }
 
     private static void terms_512DearCallsEnd() {
-        LearntReasons x = rings();
-        for (int i = 0; i < 400; i++) {
+        Subject x = rings();
+        while (x.callsLeft() > 1) {
             x.solve(200);
         }
         due("CLAUSES", x.count(1), 400);
     }
 
     private static void terms_oneObjectKnowsNothingOfAnother() {
-        LearntReasons x = rich();
-        LearntReasons y = new LearntReasons();
-        String before = pictureOf(x);
+        Subject x = rich();
+        Subject y = new Subject();
+        String before = askedOf(x);
         y.grow(3);
         y.add(1);
         y.close();
         y.solve(1);
         put(y, "grow");
-        dueSame("the first one", pictureOf(x), before);
+        dueSame("the first one", askedOf(x), before);
         due("nothing is kept in the second", y.back(0), false);
+        due("what is kept in the first", x.back(0), true);
+    }
+
+    /** Some of what can be asked, by calls of this very object. */
+    private static String askedOf(Subject x) {
+        StringBuilder b = new StringBuilder();
+        for (int what = 0; what <= 14; what++) {
+            b.append(' ').append(x.count(what));
+        }
+        b.append("; ").append(x.fault()).append(' ').append(x.closed()).append(' ').append(x.core());
+        for (int v = 1; v <= 9; v++) {
+            b.append("; ").append(x.model(v)).append(' ').append(x.follows(v - 1));
+            for (int what = 0; what <= 2; what++) {
+                b.append(' ').append(x.variable(v, what));
+            }
+        }
+        return b.append("; ").append(x.models()).append(' ').append(clauseOf(x, 0, 0)).toString();
     }
 
     private static void terms_noArgumentMakesACallThrow() {
         int[] odd = {MIN, MIN + 1, -401, -101, -100, -31, -30, -9, -4, -3, -2, -1, 0, 1, 7, 8, 9, 12, 13, 14, 15,
             29, 30, 31, 32, 50, 51, 200, 201, 355, 399, 400, 401, 512, MAX - 1, MAX};
-        LearntReasons[] all = {new LearntReasons(), told("grow 30;"), rich(), fullOfTold(), pigeonsWith(400)};
-        for (LearntReasons x : all) {
-            for (int n : odd) {
+        for (int n : odd) {
+            Subject[] all = {new Subject(), told("grow 30;"), rich(), fullOfTold(), pigeonsWith(400)};
+            for (Subject x : all) {
                 callAllWith(x, n, odd);
             }
         }
     }
 
-    private static void callAllWith(LearntReasons x, int n, int[] odd) {
+    private static void callAllWith(Subject x, int n, int[] odd) {
         x.feed(n, n, n, n, n);
         x.end(n);
         x.tell();
@@ -74,7 +91,7 @@ public final class BoundaryTellingTest extends Bench {
     // ---- 1
 
     private static void promise01_thereAreNoVariables() {
-        LearntReasons x = new LearntReasons();
+        Subject x = new Subject();
         due("V", x.count(0), 0);
         due("add(1)", x.add(1), NONE);
         due("add(-1)", x.add(-1), NONE);
@@ -86,7 +103,7 @@ public final class BoundaryTellingTest extends Bench {
     }
 
     private static void promise01_thereAreNoClauses() {
-        LearntReasons x = new LearntReasons();
+        Subject x = new Subject();
         due("clause(0, NONE)", clauseOf(x, 0, NONE), THREW);
         for (int what = 1; what <= 13; what++) {
             due("count(" + what + ")", x.count(what), 0);
@@ -96,13 +113,13 @@ public final class BoundaryTellingTest extends Bench {
     }
 
     private static void promise01_unitIs0() {
-        LearntReasons x = new LearntReasons();
+        Subject x = new Subject();
         due("count(6)", x.count(6), 0);
         due("unit(0)", x.unit(0), false);
     }
 
     private static void promise01_nothingWasYet() {
-        LearntReasons x = new LearntReasons();
+        Subject x = new Subject();
         due("count(14)", x.count(14), NONE);
         due("core()", x.core(), NONE);
         due("closed()", x.closed(), NONE);
@@ -122,7 +139,7 @@ public final class BoundaryTellingTest extends Bench {
         for (int place = 0; place < 20; place++) {
             int[] n = {0x20202020, 0x20202020, 0x20202020, 0x20202020, 0x20202020};
             n[place / 4] ^= (' ' ^ 'X') << (24 - 8 * (place % 4));
-            LearntReasons x = new LearntReasons();
+            Subject x = new Subject();
             due("feed", x.feed(n[0], n[1], n[2], n[3], n[4]), 20);
             due("tell()", x.tell(), NONE);
             due("X stands at", x.fault(), 1 + 8 * place);
@@ -130,7 +147,7 @@ public final class BoundaryTellingTest extends Bench {
     }
 
     private static void promise02_aByteAbove127IsOneByte() {
-        LearntReasons x = new LearntReasons();
+        Subject x = new Subject();
         due("feed", x.feed(0x202020FF, 0x20202020, 0x80202020, 0x20202020, 0x20202020), 20);
         due("tell()", x.tell(), NONE);
         due("fault()", x.fault(), 1 + 8 * 3);
@@ -140,14 +157,14 @@ public final class BoundaryTellingTest extends Bench {
     }
 
     private static void promise02_numbersBelow0AreBytesToo() {
-        LearntReasons x = new LearntReasons();
+        Subject x = new Subject();
         due("feed", x.feed(-1, MIN, MAX, 0, -1), 20);
         due("tell()", x.tell(), NONE);
         due("fault()", x.fault(), 1);
     }
 
     private static void promise02_twentyComeBehindWhatIsThere() {
-        LearntReasons x = new LearntReasons();
+        Subject x = new Subject();
         for (int i = 1; i <= 20; i++) {
             due("feed " + i, x.feed(0, 0, 0, 0, 0), 20 * i);
             due("count(9)", x.count(9), 20 * i);
@@ -155,7 +172,7 @@ public final class BoundaryTellingTest extends Bench {
     }
 
     private static void promise02_upTo400TheyCome() {
-        LearntReasons x = new LearntReasons();
+        Subject x = new Subject();
         put(x, times(380, " "));
         due("count(9)", x.count(9), 380);
         due("feed at 380", x.feed(0x67726F77, 0x20333B20, 0x20202020, 0x20202020, 0x20202020), 400);
@@ -165,7 +182,7 @@ public final class BoundaryTellingTest extends Bench {
 
     private static void promise02_above400NoneCome() {
         for (int had = 381; had <= 400; had++) {
-            LearntReasons x = new LearntReasons();
+            Subject x = new Subject();
             put(x, "grow 3;" + times(had - 8, " ") + "\n");
             dueRefused(x, "feed at " + had, () -> x.feed(MAX, MAX, MAX, MAX, MAX), NONE);
             due("count(9)", x.count(9), had);
@@ -176,13 +193,13 @@ public final class BoundaryTellingTest extends Bench {
     // ---- 3
 
     private static void promise03_ofAnEmptyTape() {
-        LearntReasons x = new LearntReasons();
+        Subject x = new Subject();
         due("end(0)", x.end(0), true);
         due("end(1)", x.end(1), false);
     }
 
     private static void promise03_asManyAsThereAre() {
-        LearntReasons x = new LearntReasons();
+        Subject x = new Subject();
         x.feed(0, 0, 0, 0, 0);
         due("end(20)", x.end(20), true);
         due("count(9)", x.count(9), 20);
@@ -195,7 +212,7 @@ public final class BoundaryTellingTest extends Bench {
     }
 
     private static void promise03_ofAFullTape() {
-        LearntReasons x = new LearntReasons();
+        Subject x = new Subject();
         put(x, times(400, ";"));
         due("end(401)", x.end(401), false);
         due("end(400)", x.end(400), true);
@@ -203,7 +220,7 @@ public final class BoundaryTellingTest extends Bench {
     }
 
     private static void promise03_notSoManyIsFalse() {
-        LearntReasons x = rich();
+        Subject x = rich();
         int[] none = {4, 20, 400, 401, MAX};
         for (int n : none) {
             dueFalse(x, "end(" + n + ")", () -> x.end(n));
@@ -212,7 +229,7 @@ public final class BoundaryTellingTest extends Bench {
     }
 
     private static void promise03_below0IsFalse() {
-        LearntReasons x = rich();
+        Subject x = rich();
         int[] none = {-1, -2, -3, MIN};
         for (int n : none) {
             dueFalse(x, "end(" + n + ")", () -> x.end(n));
@@ -221,7 +238,7 @@ public final class BoundaryTellingTest extends Bench {
     }
 
     private static void promise03_whatWasCutOffIsGone() {
-        LearntReasons x = new LearntReasons();
+        Subject x = new Subject();
         put(x, "grow 12;grow 9;");
         due("end(6)", x.end(6), true);
         due("end(7)", x.end(7), false);
@@ -241,22 +258,22 @@ public final class BoundaryTellingTest extends Bench {
 
     private static void promise06_from1To30() {
         for (int n = 1; n <= 30; n++) {
-            due("grow(" + n + ")", new LearntReasons().grow(n), n);
+            due("grow(" + n + ")", new Subject().grow(n), n);
         }
     }
 
     private static void promise06_noSuchN() {
-        LearntReasons x = rich();
+        Subject x = rich();
         int[] none = {0, -1, -9, 31, 32, MAX, MIN, MAX - 8};
         for (int n : none) {
             dueRefused(x, "grow(" + n + ")", () -> x.grow(n), NONE);
         }
-        due("grow(31) of a new one", new LearntReasons().grow(31), NONE);
-        due("grow(0) of a new one", new LearntReasons().grow(0), NONE);
+        due("grow(31) of a new one", new Subject().grow(31), NONE);
+        due("grow(0) of a new one", new Subject().grow(0), NONE);
     }
 
     private static void promise06_above30() {
-        LearntReasons x = told("grow 28;");
+        Subject x = told("grow 28;");
         dueRefused(x, "grow(3)", () -> x.grow(3), NONE);
         due("grow(1)", x.grow(1), 29);
         dueRefused(x, "grow(2)", () -> x.grow(2), NONE);
@@ -268,7 +285,7 @@ public final class BoundaryTellingTest extends Bench {
     }
 
     private static void promise06_newOnesArePlain() {
-        LearntReasons x = told("grow 2;phase 1 2;");
+        Subject x = told("grow 2;phase 1 2;");
         x.keep(0);
         tellMore(x, "grow 2;1 3 4;1 3 -4;phase 3 4 -1;");
         due("solve", x.solve(9), 1);
@@ -284,7 +301,7 @@ public final class BoundaryTellingTest extends Bench {
     // ---- 7
 
     private static void promise07_the8thAndTheNinth() {
-        LearntReasons x = told("grow 30;");
+        Subject x = told("grow 30;");
         for (int i = 1; i <= 8; i++) {
             due("add " + i, x.add(-30 + i), i);
         }
@@ -295,7 +312,7 @@ public final class BoundaryTellingTest extends Bench {
     }
 
     private static void promise07_noSuchVariable() {
-        LearntReasons x = rich();
+        Subject x = rich();
         int[] none = {10, -10, 30, -30, 31, -31};
         for (int n : none) {
             dueRefused(x, "add(" + n + ")", () -> x.add(n), NONE);
@@ -314,7 +331,7 @@ public final class BoundaryTellingTest extends Bench {
     }
 
     private static void promise07_itsVariableIsThere() {
-        LearntReasons x = rich();
+        Subject x = rich();
         int[] none = {2, -2, 5, -5};
         for (int n : none) {
             dueRefused(x, "add(" + n + ")", () -> x.add(n), NONE);
@@ -328,7 +345,7 @@ public final class BoundaryTellingTest extends Bench {
     // ---- 8
 
     private static void promise08_noLiteral() {
-        LearntReasons x = told("grow 3;1;");
+        Subject x = told("grow 3;1;");
         dueRefused(x, "close()", x::close, NONE);
         x.add(2);
         due("close()", x.close(), 1);
@@ -336,7 +353,7 @@ public final class BoundaryTellingTest extends Bench {
     }
 
     private static void promise08_oneLiteralAndEight() {
-        LearntReasons x = told("grow 8;");
+        Subject x = told("grow 8;");
         x.add(-8);
         due("close() of one", x.close(), 0);
         due("none is being told", x.count(5), 0);
@@ -349,7 +366,7 @@ public final class BoundaryTellingTest extends Bench {
     }
 
     private static void promise08_the80thAndThe81st() {
-        LearntReasons x = told("grow 9;");
+        Subject x = told("grow 9;");
         dueTold(x, times(79, "1;"), 79);
         x.add(2);
         due("the 80th", x.close(), 79);
@@ -364,7 +381,7 @@ public final class BoundaryTellingTest extends Bench {
     }
 
     private static void promise08_learntOnesAreNoToldOnes() {
-        LearntReasons x = told("grow 9;1 2;1 -2;" + times(77, "3;"));
+        Subject x = told("grow 9;1 2;1 -2;" + times(77, "3;"));
         due("solve", x.solve(9), 1);
         due("CLAUSES", x.count(1), 80);
         x.add(4);
@@ -374,7 +391,7 @@ public final class BoundaryTellingTest extends Bench {
     }
 
     private static void promise08_the400thAndThe401st() {
-        LearntReasons x = pigeonsWith(399);
+        Subject x = pigeonsWith(399);
         x.add(-2);
         x.add(1);
         due("the 400th", x.close(), 399);
@@ -386,7 +403,7 @@ public final class BoundaryTellingTest extends Bench {
     }
 
     private static void promise08_oneThatIsGoneStillCounts() {
-        LearntReasons x = pigeonsWith(400);
+        Subject x = pigeonsWith(400);
         due("not GONE", x.count(3) < 300, true);
         x.add(1);
         dueRefused(x, "close()", x::close, NONE);
@@ -395,7 +412,7 @@ public final class BoundaryTellingTest extends Bench {
     // ---- 9
 
     private static void promise09_the8thAndTheNinth() {
-        LearntReasons x = told("grow 30;");
+        Subject x = told("grow 30;");
         for (int i = 1; i <= 8; i++) {
             due("assume " + i, x.assume(i - 31), i);
         }
@@ -405,7 +422,7 @@ public final class BoundaryTellingTest extends Bench {
     }
 
     private static void promise09_noSuchVariable() {
-        LearntReasons x = rich();
+        Subject x = rich();
         int[] none = {10, -10, 30, -30, 31, -31};
         for (int n : none) {
             dueRefused(x, "assume(" + n + ")", () -> x.assume(n), NONE);
@@ -417,7 +434,7 @@ public final class BoundaryTellingTest extends Bench {
     }
 
     private static void promise09_itsVariableIsThere() {
-        LearntReasons x = rich();
+        Subject x = rich();
         int[] none = {7, -7, 8, -8};
         for (int n : none) {
             dueRefused(x, "assume(" + n + ")", () -> x.assume(n), NONE);
@@ -429,12 +446,12 @@ public final class BoundaryTellingTest extends Bench {
     // ---- 10
 
     private static void promise10_ofNone() {
-        LearntReasons x = told("grow 3;1;");
+        Subject x = told("grow 3;1;");
         dueRefused(x, "free()", x::free, 0);
     }
 
     private static void promise10_ofAllEight() {
-        LearntReasons x = told("grow 9;assume 1 2 3 4 5 6 7 8;");
+        Subject x = told("grow 9;assume 1 2 3 4 5 6 7 8;");
         due("free()", x.free(), 8);
         due("assumption(0)", x.assumption(0), 0);
         due("free() again", x.free(), 0);
@@ -445,7 +462,7 @@ public final class BoundaryTellingTest extends Bench {
     // ---- 11
 
     private static void promise11_noSuchVariable() {
-        LearntReasons x = rich();
+        Subject x = rich();
         int[] none = {10, -10, 30, -30, 31, -31};
         for (int n : none) {
             dueFalse(x, "phase(" + n + ")", () -> x.phase(n));
@@ -456,7 +473,7 @@ public final class BoundaryTellingTest extends Bench {
     }
 
     private static void promise11_itIsSo() {
-        LearntReasons x = told("grow 30;");
+        Subject x = told("grow 30;");
         dueFalse(x, "phase(-30)", () -> x.phase(-30));
         due("phase(30)", x.phase(30), true);
         due("PHASE", x.variable(30, 0), 1);
@@ -471,7 +488,7 @@ public final class BoundaryTellingTest extends Bench {
     // ---- 12
 
     private static void promise12_from0To50() {
-        LearntReasons x = new LearntReasons();
+        Subject x = new Subject();
         for (int n = 1; n <= 50; n++) {
             due("unit(" + n + ")", x.unit(n), true);
             due("count(6)", x.count(6), n);
@@ -481,7 +498,7 @@ public final class BoundaryTellingTest extends Bench {
     }
 
     private static void promise12_noSuchN() {
-        LearntReasons x = rich();
+        Subject x = rich();
         int[] none = {-1, 51, -7, MAX, MIN};
         for (int n : none) {
             dueFalse(x, "unit(" + n + ")", () -> x.unit(n));
@@ -490,9 +507,9 @@ public final class BoundaryTellingTest extends Bench {
     }
 
     private static void promise12_itIsSo() {
-        LearntReasons x = rich();
+        Subject x = rich();
         dueFalse(x, "unit(7)", () -> x.unit(7));
-        LearntReasons y = new LearntReasons();
+        Subject y = new Subject();
         dueFalse(y, "unit(0)", () -> y.unit(0));
         y.unit(50);
         dueFalse(y, "unit(50)", () -> y.unit(50));
@@ -501,15 +518,15 @@ public final class BoundaryTellingTest extends Bench {
     // ---- 13
 
     /** One clause of 26 literals is learnt: all of 26 decisions, by 4 that are drawn. */
-    private static LearntReasons withALongOne() {
-        LearntReasons x = told("grow 30;1 2 3 4 5 6 26 27;7 8 9 10 11 12 -27 28;"
+    private static Subject withALongOne() {
+        Subject x = told("grow 30;1 2 3 4 5 6 26 27;7 8 9 10 11 12 -27 28;"
             + "13 14 15 16 17 18 -28 29;19 20 21 22 23 24 -29 30;25 26 -30;");
         due("solve(1)", x.solve(1), 2);
         return x;
     }
 
     private static void promise13_noSuchN() {
-        LearntReasons x = withALongOne();
+        Subject x = withALongOne();
         int[] none = {0, -1, 31, MAX, MIN};
         for (int n : none) {
             dueRefused(x, "forget(" + n + ")", () -> x.forget(n), NONE);
@@ -517,7 +534,7 @@ public final class BoundaryTellingTest extends Bench {
     }
 
     private static void promise13_asManyAsNStay() {
-        LearntReasons x = withALongOne();
+        Subject x = withALongOne();
         due("its length", clauseOf(x, 5, NONE), 26);
         for (int n = 30; n >= 26; n--) {
             int most = n;
@@ -530,20 +547,20 @@ public final class BoundaryTellingTest extends Bench {
     }
 
     private static void promise13_oneOfOneLiteralStays() {
-        LearntReasons x = told("grow 2;1 2;1 -2;");
+        Subject x = told("grow 2;1 2;1 -2;");
         due("solve", x.solve(9), 1);
         dueClause(x, 2, 1);
         dueRefused(x, "forget(1)", () -> x.forget(1), 0);
     }
 
     private static void promise13_toldOnesStay() {
-        LearntReasons x = told("grow 8;1 2 3 4 5 6 7 8;1 2;");
+        Subject x = told("grow 8;1 2 3 4 5 6 7 8;1 2;");
         dueRefused(x, "forget(1)", () -> x.forget(1), 0);
         due("GONE", clauseOf(x, 0, -3), 0);
     }
 
     private static void promise13_theNumberAndTheLineStay() {
-        LearntReasons x = withALongOne();
+        Subject x = withALongOne();
         int[] literals = new int[26];
         for (int i = 0; i < 26; i++) {
             literals[i] = 26 - i;
@@ -559,7 +576,7 @@ public final class BoundaryTellingTest extends Bench {
     }
 
     private static void promise13_oneThatIsGoneDrawsNothing() {
-        LearntReasons x = told("grow 4;1 3 4;1 3 -4;");
+        Subject x = told("grow 4;1 3 4;1 3 -4;");
         due("solve", x.solve(9), 1);
         dueClause(x, 2, 3, 1);
         tellMore(x, "-1;");
@@ -570,7 +587,7 @@ public final class BoundaryTellingTest extends Bench {
 
     private static void promise13_oneThatIsGoneIsNoConflict() {
         // learnt: 3 1; then, all of -1 -3 assumed, only clauses of 4 are left to clash
-        LearntReasons x = told("grow 4;1 3 4;1 3 -4;");
+        Subject x = told("grow 4;1 3 4;1 3 -4;");
         due("solve", x.solve(9), 1);
         tellMore(x, "assume -1 -3;");
         x.keep(0);
@@ -585,7 +602,7 @@ public final class BoundaryTellingTest extends Bench {
     // ---- 14, 15
 
     private static void promise14_noSuchSlot() {
-        LearntReasons x = rich();
+        Subject x = rich();
         int[] none = {-1, 2, 3, MAX, MIN};
         for (int n : none) {
             dueFalse(x, "keep(" + n + ")", () -> x.keep(n));
@@ -593,7 +610,7 @@ public final class BoundaryTellingTest extends Bench {
     }
 
     private static void promise14_bothSlotsEachTheirOwn() {
-        LearntReasons x = new LearntReasons();
+        Subject x = new Subject();
         due("keep(0)", x.keep(0), true);
         x.grow(1);
         due("keep(1)", x.keep(1), true);
@@ -605,7 +622,7 @@ public final class BoundaryTellingTest extends Bench {
     }
 
     private static void promise14_keptAgainIsKeptAnew() {
-        LearntReasons x = new LearntReasons();
+        Subject x = new Subject();
         x.keep(1);
         x.grow(5);
         due("keep(1)", x.keep(1), true);
@@ -615,7 +632,7 @@ public final class BoundaryTellingTest extends Bench {
     }
 
     private static void promise14_butTheTape() {
-        LearntReasons x = new LearntReasons();
+        Subject x = new Subject();
         put(x, "grow 5;");
         x.keep(0);
         x.end(6);
@@ -625,7 +642,7 @@ public final class BoundaryTellingTest extends Bench {
     }
 
     private static void promise14_butTheFault() {
-        LearntReasons x = new LearntReasons();
+        Subject x = new Subject();
         x.keep(0);
         dueFault(x, "0;", 2, 0);
         x.back(0);
@@ -637,7 +654,7 @@ public final class BoundaryTellingTest extends Bench {
     }
 
     private static void promise14_butWhatIsKept() {
-        LearntReasons x = new LearntReasons();
+        Subject x = new Subject();
         x.keep(0);
         x.grow(3);
         x.keep(1);
@@ -647,14 +664,14 @@ public final class BoundaryTellingTest extends Bench {
     }
 
     private static void promise14_keepingChangesNothing() {
-        LearntReasons x = rich();
+        Subject x = rich();
         dueRefused(x, "keep(0)", () -> x.keep(0) ? 1 : 0, 1);
         dueRefused(x, "keep(1)", () -> x.keep(1) ? 1 : 0, 1);
         dueRefused(x, "back(1)", () -> x.back(1) ? 1 : 0, 1);
     }
 
     private static void promise15_noSuchSlot() {
-        LearntReasons x = rich();
+        Subject x = rich();
         int[] none = {-1, 2, 3, MAX, MIN};
         for (int n : none) {
             dueFalse(x, "back(" + n + ")", () -> x.back(n));
@@ -662,15 +679,15 @@ public final class BoundaryTellingTest extends Bench {
     }
 
     private static void promise15_nothingIsKept() {
-        LearntReasons x = rich();
+        Subject x = rich();
         dueFalse(x, "back(1)", () -> x.back(1));
-        LearntReasons y = new LearntReasons();
+        Subject y = new Subject();
         y.keep(1);
         dueFalse(y, "back(0)", () -> y.back(0));
     }
 
     private static void promise15_allIsAsWasKept() {
-        LearntReasons x = rich();
+        Subject x = rich();
         x.end(0);
         x.keep(1);
         String before = pictureOf(x);
@@ -682,7 +699,7 @@ public final class BoundaryTellingTest extends Bench {
     }
 
     /** Leaves FAULT and TAPE as it found them, for they are not kept. */
-    private static void changeAll(LearntReasons x) {
+    private static void changeAll(Subject x) {
         x.grow(4);
         x.add(9);
         x.close();
@@ -702,7 +719,7 @@ public final class BoundaryTellingTest extends Bench {
     }
 
     private static void promise15_whatIsKeptStays() {
-        LearntReasons x = rich();
+        Subject x = rich();
         x.end(0);
         x.keep(0);
         String before = pictureOf(x);
@@ -714,7 +731,7 @@ public final class BoundaryTellingTest extends Bench {
     }
 
     private static void promise15_fromAFullOneToAnEmptyOneAndAgain() {
-        LearntReasons x = new LearntReasons();
+        Subject x = new Subject();
         x.keep(0);
         String empty = pictureOf(x);
         tellMore(x, "grow 30;" + times(78, "30;"));
@@ -736,7 +753,7 @@ public final class BoundaryTellingTest extends Bench {
     }
 
     private static void promise15_numbersAreUsedAgain() {
-        LearntReasons x = told("grow 4;");
+        Subject x = told("grow 4;");
         x.keep(0);
         tellMore(x, "1 2;-3 4;");
         x.back(0);
@@ -750,7 +767,7 @@ public final class BoundaryTellingTest extends Bench {
     }
 
     private static void promise15_whereOtherClausesHadTheNumbers() {
-        LearntReasons x = told("grow 4;");
+        Subject x = told("grow 4;");
         x.keep(0);
         tellMore(x, "1;-2;");
         x.keep(1);
@@ -767,7 +784,7 @@ public final class BoundaryTellingTest extends Bench {
     }
 
     private static void promise15_whatWasGoneSinceIsThereAgain() {
-        LearntReasons x = told("grow 4;1 3 4;1 3 -4;");
+        Subject x = told("grow 4;1 3 4;1 3 -4;");
         due("solve", x.solve(9), 1);
         x.keep(0);
         due("forget(1)", x.forget(1), 1);
@@ -781,7 +798,7 @@ public final class BoundaryTellingTest extends Bench {
     }
 
     private static void promise15_with400Clauses() {
-        LearntReasons x = pigeonsWith(390);
+        Subject x = pigeonsWith(390);
         x.keep(0);
         String before = pictureOf(x);
         due("solve", x.solve(200), 3);

@@ -4,23 +4,23 @@ public final class BoundaryTextTest extends Bench {
     // ---- 4: what is told
 
     private static void promise04_anEmptyText() {
-        LearntReasons x = rich();
+        Subject x = rich();
         x.end(0);
         due("tell()", x.tell(), 0);
         due("fault()", x.fault(), 0);
-        LearntReasons y = new LearntReasons();
+        Subject y = new Subject();
         dueRefused(y, "tell()", y::tell, 0);
     }
 
     private static void promise04_blanksAlone() {
-        LearntReasons x = new LearntReasons();
+        Subject x = new Subject();
         dueTold(x, " ", 0);
         dueTold(x, "\n", 0);
         dueTold(x, times(200, " \n"), 0);
     }
 
     private static void promise04_aFullText() {
-        LearntReasons x = told("grow 9;");
+        Subject x = told("grow 9;");
         String text = times(80, "1;") + times(34, "assume;") + " \n";
         due("bytes", text.length(), 400);
         dueTold(x, text, 114);
@@ -33,7 +33,7 @@ public final class BoundaryTextTest extends Bench {
     }
 
     private static void promise04_theTapeIsEmptyThenEitherWay() {
-        LearntReasons x = new LearntReasons();
+        Subject x = new Subject();
         put(x, "grow 2;1;");
         due("tell()", x.tell(), 2);
         due("count(9)", x.count(9), 0);
@@ -46,7 +46,7 @@ public final class BoundaryTextTest extends Bench {
     }
 
     private static void promise04_theShortestStatements() {
-        LearntReasons x = new LearntReasons();
+        Subject x = new Subject();
         dueTold(x, "grow1;1;-1;assume;phase1;", 5);
         due("V", x.count(0), 1);
         dueClause(x, 0, 1);
@@ -55,13 +55,13 @@ public final class BoundaryTextTest extends Bench {
     }
 
     private static void promise04_theLongestClause() {
-        LearntReasons x = told("grow 30;");
+        Subject x = told("grow 30;");
         dueTold(x, "30-29 28-27 26-25 24-23;", 1);
         dueClause(x, 0, 30, -29, 28, -27, 26, -25, 24, -23);
     }
 
     private static void promise04_theMostAssumptions() {
-        LearntReasons x = told("grow 30;");
+        Subject x = told("grow 30;");
         dueTold(x, "assume 30-29 28-27 26-25 24-23;", 1);
         due("count(4)", x.count(4), 8);
         due("the first", x.assumption(0), 30);
@@ -69,13 +69,13 @@ public final class BoundaryTextTest extends Bench {
     }
 
     private static void promise04_assumeWithoutOneFreesAll() {
-        LearntReasons x = told("grow 3;assume 1 2;");
+        Subject x = told("grow 3;assume 1 2;");
         dueTold(x, "assume;", 1);
         due("count(4)", x.count(4), 0);
     }
 
     private static void promise04_assumeIsFromNowOn() {
-        LearntReasons x = told("grow 9;assume 1 2 3 4 5 6 7 8;");
+        Subject x = told("grow 9;assume 1 2 3 4 5 6 7 8;");
         dueTold(x, "assume 9;", 1);
         due("count(4)", x.count(4), 1);
         due("assumption(0)", x.assumption(0), 9);
@@ -85,7 +85,7 @@ public final class BoundaryTextTest extends Bench {
     }
 
     private static void promise04_phaseMayNameOneAgain() {
-        LearntReasons x = told("grow 2;");
+        Subject x = told("grow 2;");
         dueTold(x, "phase 1 -1 1 2 -2;", 1);
         due("PHASE of 1", x.variable(1, 0), 1);
         due("PHASE of 2", x.variable(2, 0), 0);
@@ -93,20 +93,20 @@ public final class BoundaryTextTest extends Bench {
     }
 
     private static void promise04_phaseHasNoMost() {
-        LearntReasons x = told("grow 30;");
+        Subject x = told("grow 30;");
         dueTold(x, "phase" + times(130, "-30") + " 1;", 1);
         due("PHASE of 1", x.variable(1, 0), 1);
     }
 
     private static void promise04_oneByOne() {
-        LearntReasons x = new LearntReasons();
+        Subject x = new Subject();
         dueTold(x, "grow 1;1;grow 29;30;assume 30;phase 30;", 6);
         due("V", x.count(0), 30);
-        dueFault(new LearntReasons(), "1;grow 1;", 2, 0);
+        dueFault(new Subject(), "1;grow 1;", 2, 0);
     }
 
     private static void promise04_theClauseThatIsBeingToldStays() {
-        LearntReasons x = told("grow 9;");
+        Subject x = told("grow 9;");
         for (int v = 1; v <= 8; v++) {
             x.add(v);
         }
@@ -117,7 +117,7 @@ public final class BoundaryTextTest extends Bench {
     }
 
     private static void promise04_aFaultAtTheLastTokenChangesNothing() {
-        LearntReasons x = rich();
+        Subject x = rich();
         x.end(0);
         String text = "grow 5;1 2;-14;assume 3 14;phase -5 14;grow 1;15;";
         String[] last = {"16;", ";", "1", "grow 16;", "grow", "x", "1 1;", "assume 2 2;", "phase;", "-"};
@@ -137,7 +137,7 @@ public final class BoundaryTextTest extends Bench {
     }
 
     private static void promise04_whatIsKeptStaysAtAFault() {
-        LearntReasons x = told("grow 2;");
+        Subject x = told("grow 2;");
         x.keep(0);
         dueFault(x, "grow 3;0;", 2, 7);
         due("back(0)", x.back(0), true);
@@ -148,7 +148,7 @@ public final class BoundaryTextTest extends Bench {
     // ---- 5: which FAULT
 
     private static void promise05_noneAheadOfAny() {
-        LearntReasons x = new LearntReasons();
+        Subject x = new Subject();
         due("fault()", x.fault(), 0);
         x.grow(31);
         x.solve(0);
@@ -157,7 +157,7 @@ public final class BoundaryTextTest extends Bench {
     }
 
     private static void promise05_thatOfTheLatest() {
-        LearntReasons x = told("grow 2;");
+        Subject x = told("grow 2;");
         dueFault(x, " 0;", 2, 1);
         dueFault(x, "1", 1, 1);
         dueLogFault(x, "  3;", 2, 2);
@@ -167,7 +167,7 @@ public final class BoundaryTextTest extends Bench {
     }
 
     private static void promise05_noOtherCallTouchesIt() {
-        LearntReasons x = told("grow 2;");
+        Subject x = told("grow 2;");
         dueFault(x, " 0;", 2, 1);
         x.grow(31);
         x.add(9);
@@ -182,7 +182,7 @@ public final class BoundaryTextTest extends Bench {
     }
 
     private static void promise05_theEndIsAtTheLength() {
-        LearntReasons x = told("grow 12;");
+        Subject x = told("grow 12;");
         dueFault(x, "1", 1, 1);
         dueFault(x, "1 \n ", 1, 4);
         dueFault(x, "-", 1, 1);
@@ -198,7 +198,7 @@ public final class BoundaryTextTest extends Bench {
     }
 
     private static void promise05_theEndOfAFullText() {
-        LearntReasons x = told("grow 9;");
+        Subject x = told("grow 9;");
         dueFault(x, times(399, " ") + "1", 1, 400);
         dueFault(x, "-" + times(399, " "), 1, 400);
         dueFault(x, times(396, " ") + "grow", 1, 400);
@@ -209,14 +209,14 @@ public final class BoundaryTextTest extends Bench {
     }
 
     private static void promise05_1_aClauseHasALiteral() {
-        LearntReasons x = told("grow 9;");
+        Subject x = told("grow 9;");
         dueFault(x, ";", 1, 0);
         dueFault(x, "1;;", 1, 2);
         dueFault(x, "1; ;", 1, 3);
     }
 
     private static void promise05_1_aMinusHasAnInt() {
-        LearntReasons x = told("grow 9;");
+        Subject x = told("grow 9;");
         dueFault(x, "--1;", 1, 1);
         dueFault(x, "-;", 1, 1);
         dueFault(x, "1-;", 1, 2);
@@ -226,7 +226,7 @@ public final class BoundaryTextTest extends Bench {
     }
 
     private static void promise05_1_aWordWithinAStatement() {
-        LearntReasons x = told("grow 9;");
+        Subject x = told("grow 9;");
         dueFault(x, "1 grow 1;", 1, 2);
         dueFault(x, "1 assume 2;", 1, 2);
         dueFault(x, "1phase 2;", 1, 1);
@@ -237,7 +237,7 @@ public final class BoundaryTextTest extends Bench {
     }
 
     private static void promise05_1_growHasOneInt() {
-        LearntReasons x = told("grow 9;");
+        Subject x = told("grow 9;");
         dueFault(x, "grow;", 1, 4);
         dueFault(x, "grow -1;", 1, 5);
         dueFault(x, "grow 1 1;", 1, 7);
@@ -246,13 +246,13 @@ public final class BoundaryTextTest extends Bench {
     }
 
     private static void promise05_1_phaseHasALiteral() {
-        LearntReasons x = told("grow 9;");
+        Subject x = told("grow 9;");
         dueFault(x, "phase;", 1, 5);
         dueFault(x, "phase ;", 1, 6);
     }
 
     private static void promise05_1_otherWords() {
-        LearntReasons x = told("grow 9;");
+        Subject x = told("grow 9;");
         String[] words = {"a", "z", "g", "gro", "grows", "growx 1", "rgrow", "assum", "assumes", "aassume", "phas",
             "phases", "hase", "growa", "growz", "assumea", "assumez", "phasea", "phasez", "brow", "hrow", "gsow", "grpw",
             "grox", "bssume", "asxume", "assumd", "qhase", "pgase", "phbse", "phate", "phasf", "growgrow", "growassume", "Grow", "GROW", "Assume", "Phase", "word"};
@@ -271,7 +271,7 @@ public final class BoundaryTextTest extends Bench {
             boolean known = sign == ' ' || sign == '\n' || sign == '-' || sign == ';'
                 || sign >= '0' && sign <= '9' || sign >= 'a' && sign <= 'z';
             if (!known) {
-                LearntReasons x = told("grow 9;");
+                Subject x = told("grow 9;");
                 dueFault(x, (char) sign + "1;", 1, 0);
                 dueFault(x, "1" + (char) sign + ";", 1, 1);
                 dueFault(x, "1;" + (char) sign, 1, 2);
@@ -281,7 +281,7 @@ public final class BoundaryTextTest extends Bench {
     }
 
     private static void promise05_1_anIntOfMoreDigits() {
-        LearntReasons x = told("grow 9;");
+        Subject x = told("grow 9;");
         dueFault(x, "001;", 1, 0);
         dueFault(x, "1 100;", 1, 2);
         dueFault(x, "1 -002;", 1, 3);
@@ -294,7 +294,7 @@ public final class BoundaryTextTest extends Bench {
     }
 
     private static void promise05_intsOfOneAndTwoDigits() {
-        LearntReasons x = new LearntReasons();
+        Subject x = new Subject();
         dueTold(x, "grow 09;grow 1;", 2);
         due("V", x.count(0), 10);
         dueTold(x, "01 2-09 10;", 1);
@@ -306,7 +306,7 @@ public final class BoundaryTextTest extends Bench {
     }
 
     private static void promise05_blanksBetweenOrNot() {
-        LearntReasons x = new LearntReasons();
+        Subject x = new Subject();
         dueTold(x, "\n grow \n 3 \n ;\n-\n1 - 2\n;assume1-2-3;phase1 2;", 4);
         dueClause(x, 0, -1, -2);
         due("count(4)", x.count(4), 3);
@@ -317,7 +317,7 @@ public final class BoundaryTextTest extends Bench {
     }
 
     private static void promise05_2_noSuchVariable() {
-        LearntReasons x = told("grow 9;");
+        Subject x = told("grow 9;");
         dueTold(x, "9;-9;assume 9;phase 9 -9;", 4);
         dueFault(x, "10;", 2, 0);
         dueFault(x, "-10;", 2, 1);
@@ -332,16 +332,16 @@ public final class BoundaryTextTest extends Bench {
         dueFault(x, "phase 10;", 2, 6);
         dueFault(x, "phase 1-10;", 2, 8);
         dueFault(x, "phase 0;", 2, 6);
-        LearntReasons all = told("grow 30;");
+        Subject all = told("grow 30;");
         dueTold(all, "30;", 1);
         dueFault(all, "31;", 2, 0);
         dueFault(all, "32;", 2, 0);
         dueFault(all, "33;", 2, 0);
-        dueFault(new LearntReasons(), "1;", 2, 0);
+        dueFault(new Subject(), "1;", 2, 0);
     }
 
     private static void promise05_2_isThereAlreadyInThisClause() {
-        LearntReasons x = told("grow 30;");
+        Subject x = told("grow 30;");
         dueFault(x, "1 1;", 2, 2);
         dueFault(x, "1 -1;", 2, 3);
         dueFault(x, "-1 1;", 2, 3);
@@ -352,7 +352,7 @@ public final class BoundaryTextTest extends Bench {
     }
 
     private static void promise05_2_isThereAlreadyInTheseAssumptions() {
-        LearntReasons x = told("grow 30;");
+        Subject x = told("grow 30;");
         dueFault(x, "assume 1 1;", 2, 9);
         dueFault(x, "assume 1-1;", 2, 9);
         dueFault(x, "assume 30 2 3 4 5 6 7-30;", 2, 22);
@@ -361,14 +361,14 @@ public final class BoundaryTextTest extends Bench {
     }
 
     private static void promise05_2_growBy0() {
-        LearntReasons x = told("grow 9;");
+        Subject x = told("grow 9;");
         dueFault(x, "grow 0;", 2, 5);
         dueFault(x, "grow 00;", 2, 5);
         dueFault(x, "grow0", 2, 4);
     }
 
     private static void promise05_2_growAbove30() {
-        LearntReasons x = new LearntReasons();
+        Subject x = new Subject();
         dueFault(x, "grow 31;", 2, 5);
         dueFault(x, "grow 99;", 2, 5);
         dueFault(x, "grow 15;grow 16;", 2, 13);
@@ -379,11 +379,11 @@ public final class BoundaryTextTest extends Bench {
         dueTold(x, "grow 1;", 1);
         due("V", x.count(0), 30);
         dueFault(x, "grow 1;", 2, 5);
-        dueTold(new LearntReasons(), "grow 30;", 1);
+        dueTold(new Subject(), "grow 30;", 1);
     }
 
     private static void promise05_3_an81stToldClause() {
-        LearntReasons x = told("grow 9;");
+        Subject x = told("grow 9;");
         dueTold(x, times(78, "1;"), 78);
         dueFault(x, "1;1;1;", 3, 4);
         dueFault(x, "1;1; \n-1;", 3, 6);
@@ -397,7 +397,7 @@ public final class BoundaryTextTest extends Bench {
     }
 
     private static void promise05_3_oneWhereThereAre400() {
-        LearntReasons x = pigeonsWith(398);
+        Subject x = pigeonsWith(398);
         dueFault(x, "1;1;1;", 3, 4);
         dueFault(x, "1;1;-1;", 3, 4);
         due("CLAUSES", x.count(1), 398);
@@ -411,7 +411,7 @@ public final class BoundaryTextTest extends Bench {
     }
 
     private static void promise05_3_aNinthLitOfAClause() {
-        LearntReasons x = told("grow 30;");
+        Subject x = told("grow 30;");
         dueTold(x, "1 2 3 4 5 6 7 8;", 1);
         dueFault(x, "1 2 3 4 5 6 7 8 9;", 3, 16);
         dueFault(x, "1 2 3 4 5 6 7 8-9;", 3, 15);
@@ -420,7 +420,7 @@ public final class BoundaryTextTest extends Bench {
     }
 
     private static void promise05_3_aNinthLitOfAssumptions() {
-        LearntReasons x = told("grow 30;");
+        Subject x = told("grow 30;");
         dueTold(x, "assume 1 2 3 4 5 6 7 8;", 1);
         dueFault(x, "assume 1 2 3 4 5 6 7 8 9;", 3, 23);
         dueFault(x, "assume 1 2 3 4 5 6 7 8-9;", 3, 22);
@@ -429,7 +429,7 @@ public final class BoundaryTextTest extends Bench {
     }
 
     private static void promise05_theFirstAlongTheText() {
-        LearntReasons x = told("grow 30;");
+        Subject x = told("grow 30;");
         dueFault(x, "0;$", 2, 0);
         dueFault(x, "1 1;;", 2, 2);
         dueFault(x, ";0;", 1, 0);
@@ -444,7 +444,7 @@ public final class BoundaryTextTest extends Bench {
         dueFault(x, "1 2 3 4 5 6 7 8-31;", 3, 15);
         dueFault(x, "1 2 3 4 5 6 7 8-100;", 3, 15);
         dueFault(x, "1 2 3 4 5 6 7 8-", 3, 15);
-        LearntReasons full = fullOfTold();
+        Subject full = fullOfTold();
         dueFault(full, "-0;", 3, 0);
         dueFault(full, "-100;", 3, 0);
         dueFault(full, "-", 3, 0);
@@ -453,7 +453,7 @@ public final class BoundaryTextTest extends Bench {
     }
 
     private static void promise05_ofOnePlaceTheLeast() {
-        LearntReasons x = told("grow 30;");
+        Subject x = told("grow 30;");
         dueFault(x, "1 2 3 4 5 6 7 8 8;", 2, 16);
         dueFault(x, "1 2 3 4 5 6 7 8 1;", 2, 16);
         dueFault(x, "1 2 3 4 5 6 7 8 0;", 2, 16);
@@ -464,7 +464,7 @@ public final class BoundaryTextTest extends Bench {
         dueFault(x, "assume 1 2 3 4 5 6 7 8 8;", 2, 23);
         dueFault(x, "assume 1 2 3 4 5 6 7 8 31;", 2, 23);
         dueFault(x, "assume 1 2 3 4 5 6 7 8 x;", 1, 23);
-        LearntReasons full = fullOfTold();
+        Subject full = fullOfTold();
         dueFault(full, "0;", 2, 0);
         dueFault(full, "10;", 2, 0);
         dueFault(full, "100;", 1, 0);

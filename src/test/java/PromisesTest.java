@@ -4,7 +4,7 @@ public final class PromisesTest extends Bench {
     // ---- the promises
 
     private static void promise1() {
-        LearntReasons x = new LearntReasons();
+        Subject x = new Subject();
         int[] counts = {0, 0, 0, 0, 0, 0, 0, 0, 0, 0, 0, 0, 0, 0, -1};
         for (int i = 0; i < counts.length; i++) {
             due("count(" + i + ")", x.count(i), counts[i]);
@@ -17,7 +17,7 @@ public final class PromisesTest extends Bench {
     }
 
     private static void promise2() {
-        LearntReasons x = new LearntReasons();
+        Subject x = new Subject();
         // "grow 3;" and blanks: the highest byte of each number comes first
         due("feed", x.feed(0x67726F77, 0x20333B20, 0x20202020, 0x20202020, 0x0A0A0A0A), 20);
         due("tell()", x.tell(), 1);
@@ -35,7 +35,7 @@ public final class PromisesTest extends Bench {
     }
 
     private static void promise3() {
-        LearntReasons x = new LearntReasons();
+        Subject x = new Subject();
         due("end(0)", x.end(0), true);
         due("end(1)", x.end(1), false);
         due("end(-1)", x.end(-1), false);
@@ -52,7 +52,7 @@ public final class PromisesTest extends Bench {
     }
 
     private static void promise4() {
-        LearntReasons x = new LearntReasons();
+        Subject x = new Subject();
         put(x, "grow3;1-2;- 3 2\n1;assume-1 3;phase 2 2-3;grow 01;4;");
         due("tell()", x.tell(), 7);
         due("V", x.count(0), 4);
@@ -84,7 +84,7 @@ public final class PromisesTest extends Bench {
     }
 
     private static void promise5() {
-        LearntReasons x = told("grow 12;");
+        Subject x = told("grow 12;");
         dueFault(x, ";", 1, 0);
         dueFault(x, "1", 1, 1);
         dueFault(x, "1  ", 1, 3);
@@ -125,7 +125,7 @@ public final class PromisesTest extends Bench {
         dueFault(x, "0;", 2, 0);
         x.refute();
         due("fault() behind a good log", x.fault(), 0);
-        LearntReasons full = new LearntReasons();
+        Subject full = new Subject();
         full.grow(2);
         for (int i = 0; i < 80; i++) {
             full.add(1);
@@ -139,7 +139,7 @@ public final class PromisesTest extends Bench {
     }
 
     private static void promise6() {
-        LearntReasons x = new LearntReasons();
+        Subject x = new Subject();
         int[] none = {0, -1, 31, Integer.MAX_VALUE, Integer.MIN_VALUE};
         for (int n : none) {
             due("grow(" + n + ")", x.grow(n), -1);
@@ -149,11 +149,11 @@ public final class PromisesTest extends Bench {
         due("grow(29)", x.grow(29), 30);
         due("grow(1)", x.grow(1), -1);
         due("V", x.count(0), 30);
-        due("grow(30)", new LearntReasons().grow(30), 30);
+        due("grow(30)", new Subject().grow(30), 30);
     }
 
     private static void promise7() {
-        LearntReasons x = new LearntReasons();
+        Subject x = new Subject();
         due("add(1) of none", x.add(1), -1);
         x.grow(10);
         int[] none = {0, 11, -11, Integer.MAX_VALUE, Integer.MIN_VALUE};
@@ -172,7 +172,7 @@ public final class PromisesTest extends Bench {
     }
 
     private static void promise8() {
-        LearntReasons x = new LearntReasons();
+        Subject x = new Subject();
         x.grow(2);
         due("close() of nothing", x.close(), -1);
         for (int i = 0; i < 80; i++) {
@@ -188,7 +188,7 @@ public final class PromisesTest extends Bench {
     }
 
     private static void promise9() {
-        LearntReasons x = new LearntReasons();
+        Subject x = new Subject();
         due("assume(1) of none", x.assume(1), -1);
         x.grow(9);
         int[] none = {0, 10, -10, Integer.MAX_VALUE, Integer.MIN_VALUE};
@@ -204,7 +204,7 @@ public final class PromisesTest extends Bench {
     }
 
     private static void promise10() {
-        LearntReasons x = told("grow 3;assume 1 -2;");
+        Subject x = told("grow 3;assume 1 -2;");
         due("free()", x.free(), 2);
         due("free() again", x.free(), 0);
         due("count(4)", x.count(4), 0);
@@ -212,7 +212,7 @@ public final class PromisesTest extends Bench {
     }
 
     private static void promise11() {
-        LearntReasons x = told("grow 2;");
+        Subject x = told("grow 2;");
         due("phase(-1)", x.phase(-1), false);
         due("phase(1)", x.phase(1), true);
         due("phase(1) again", x.phase(1), false);
@@ -230,7 +230,7 @@ public final class PromisesTest extends Bench {
     }
 
     private static void promise12() {
-        LearntReasons x = new LearntReasons();
+        Subject x = new Subject();
         due("unit(0)", x.unit(0), false);
         due("unit(50)", x.unit(50), true);
         due("unit(50)", x.unit(50), false);
@@ -242,7 +242,7 @@ public final class PromisesTest extends Bench {
     }
 
     private static void promise13() {
-        LearntReasons x = told("grow 4;1 3 4;1 3 -4;2 3 4;");
+        Subject x = told("grow 4;1 3 4;1 3 -4;2 3 4;");
         due("solve", x.solve(9), 1);
         dueClause(x, 3, 3, 1);
         int[] none = {0, -1, 31, Integer.MIN_VALUE};
@@ -270,7 +270,7 @@ public final class PromisesTest extends Bench {
     }
 
     private static void promise14and15() {
-        LearntReasons x = told(ALL_FOUR);
+        Subject x = told(ALL_FOUR);
         int[] none = {-1, 2, Integer.MAX_VALUE, Integer.MIN_VALUE};
         for (int n : none) {
             due("keep(" + n + ")", x.keep(n), false);
@@ -321,7 +321,7 @@ public final class PromisesTest extends Bench {
         due("V", x.count(0), 2);
         due("back(1) is still there", x.back(1), true);
         due("CLAUSES", x.count(1), 5);
-        LearntReasons y = told("grow 2;1;");
+        Subject y = told("grow 2;1;");
         y.solve(1);
         y.keep(0);
         y.keep(1);
@@ -331,7 +331,7 @@ public final class PromisesTest extends Bench {
         dueModel(y, 1, 0, 1);
         y.back(1);
         dueModel(y, 1, 0);
-        LearntReasons z = told("grow 4;1 3 4;1 3 -4;-2 1;assume 2 -1;");
+        Subject z = told("grow 4;1 3 4;1 3 -4;-2 1;assume 2 -1;");
         z.unit(1);
         due("solve", z.solve(1), 0);
         z.keep(0);
@@ -349,7 +349,7 @@ public final class PromisesTest extends Bench {
     }
 
     private static void promise16() {
-        LearntReasons x = told("grow 4;1 3 4;1 3 -4;");
+        Subject x = told("grow 4;1 3 4;1 3 -4;");
         int[] none = {0, -1, 201, Integer.MAX_VALUE, Integer.MIN_VALUE};
         for (int n : none) {
             due("solve(" + n + ")", x.solve(n), -1);
@@ -366,7 +366,7 @@ public final class PromisesTest extends Bench {
     }
 
     private static void promise16trims() {
-        LearntReasons x = told("grow 4;1 -2;1 2 3 4;1 2 3 -4;");
+        Subject x = told("grow 4;1 -2;1 2 3 4;1 2 3 -4;");
         due("solve(9)", x.solve(9), 1);
         dueClause(x, 3, 3, 1);
         dueCounts(x, 1, 3, 2, 0);
@@ -375,23 +375,23 @@ public final class PromisesTest extends Bench {
     }
 
     private static void promise16startsAnew() {
-        LearntReasons x = told("grow 4;1 3 4;1 3 -4;");
+        Subject x = told("grow 4;1 3 4;1 3 -4;");
         x.unit(1);
         due("solve(9)", x.solve(9), 1);
         dueCounts(x, 1, 6, 2, 1);
         dueModel(x, 0, 0, 1, 1);
-        LearntReasons y = told("grow 4;1 3 4;1 3 -4;");
+        Subject y = told("grow 4;1 3 4;1 3 -4;");
         y.unit(2);
         due("solve(9)", y.solve(9), 1);
         dueCounts(y, 1, 5, 1, 0);
-        LearntReasons z = told("grow 4;1 3 4;1 3 -4;");
+        Subject z = told("grow 4;1 3 4;1 3 -4;");
         z.unit(1);
         due("solve(1)", z.solve(1), 2);
         dueCounts(z, 1, 3, 1, 1);
     }
 
     private static void promise16ends() {
-        LearntReasons x = told(ALL_FOUR);
+        Subject x = told(ALL_FOUR);
         due("solve(1)", x.solve(1), 2);
         dueClause(x, 4, 1);
         due("phase of 1: the learnt literal left last", x.variable(1, 0), 1);
@@ -407,8 +407,8 @@ public final class PromisesTest extends Bench {
         x.assume(1);
         due("solve(1)", x.solve(1), 0);
         due("core()", x.core(), 0);
-        due("solve of no variables", new LearntReasons().solve(1), 1);
-        LearntReasons once = told(ALL_FOUR);
+        due("solve of no variables", new Subject().solve(1), 1);
+        Subject once = told(ALL_FOUR);
         due("solve(2)", once.solve(2), 0);
     }
 
@@ -417,7 +417,7 @@ public final class PromisesTest extends Bench {
         int[] sums = {1, 2, 4, 5, 6, 8, 12, 13, 14, 16, 17, 18, 20, 24};
         for (int unit = 1; unit <= 3; unit++) {
             for (int i = 0; i < sums.length && unit * sums[i] <= 24; i++) {
-                LearntReasons x = pigeons();
+                Subject x = pigeons();
                 x.unit(unit);
                 due("solve", x.solve(unit * sums[i]), 2);
                 due("ANEW of " + unit + " times " + sums[i], x.count(13), i + 1);
@@ -427,21 +427,21 @@ public final class PromisesTest extends Bench {
     }
 
     private static void promise16least() {
-        LearntReasons x = told("grow 3;1 2;3 1 -2;1 -2;assume -3;");
+        Subject x = told("grow 3;1 2;3 1 -2;1 -2;assume -3;");
         // -3, -1, 2 by clause 0: clauses 1 and 2 are all false, and that of 1 is learnt from
         due("solve(1)", x.solve(1), 2);
         dueClause(x, 3, 1, 3);
     }
 
     private static void promise16trimsByLevel0() {
-        LearntReasons x = told("grow 5;5;1 -2 -5;1 2 3 4;1 2 3 -4;");
+        Subject x = told("grow 5;5;1 -2 -5;1 2 3 4;1 2 3 -4;");
         due("solve(1)", x.solve(1), 2);
         dueClause(x, 4, 3, 1);
         due("LEVEL 0 is not SEEN", x.variable(5, 1), 0);
     }
 
     private static void promise16full() {
-        LearntReasons x = pigeons();
+        Subject x = pigeons();
         int ended = 2;
         for (int i = 0; i < 100 && ended == 2; i++) {
             ended = x.solve(4);
@@ -463,7 +463,7 @@ public final class PromisesTest extends Bench {
 
     /** The second conflict meets scores of the first: 14 and 16 more is 30, less 3; 14 alone less 1. */
     private static void promise16scores() {
-        LearntReasons x = told("grow 5;1 2 3;1 2 -3;1 -2 4;1 -2 -4;");
+        Subject x = told("grow 5;1 2 3;1 2 -3;1 -2 4;1 -2 -4;");
         // -1, -2, 3 by clause 0, clash 1: 2 1 is learnt, 1 2 3 have 14; at level 1 then 2, 4, clash 3:
         // of 1 2 4 goes 4, of 1 2 goes 2: 1 alone is left
         due("solve(9)", x.solve(9), 1);
@@ -480,7 +480,7 @@ public final class PromisesTest extends Bench {
     }
 
     private static void promise17() {
-        LearntReasons x = told("grow 4;1 3 4;1 3 -4;assume 2;");
+        Subject x = told("grow 4;1 3 4;1 3 -4;assume 2;");
         x.add(1);
         x.add(2);
         x.unit(9);
@@ -501,7 +501,7 @@ public final class PromisesTest extends Bench {
     }
 
     private static void promise18() {
-        LearntReasons x = told("grow 3;-3 1;2;");
+        Subject x = told("grow 3;-3 1;2;");
         dueClause(x, 0, -3, 1);
         dueClause(x, 1, 2);
         due("LEARNT", clauseOf(x, 0, -2), 0);
@@ -513,11 +513,11 @@ public final class PromisesTest extends Bench {
         due("clause -1", clauseOf(x, -1, -1), THREW);
         due("clause MIN", clauseOf(x, Integer.MIN_VALUE, 0), THREW);
         due("clause MAX", clauseOf(x, Integer.MAX_VALUE, 0), THREW);
-        due("of none", clauseOf(new LearntReasons(), 0, -1), THREW);
+        due("of none", clauseOf(new Subject(), 0, -1), THREW);
     }
 
     private static void promise19() {
-        LearntReasons x = told("grow 3;assume 3 -1;");
+        Subject x = told("grow 3;assume 3 -1;");
         due("assumption(0)", x.assumption(0), 3);
         due("assumption(1)", x.assumption(1), -1);
         int[] none = {2, -1, 8, Integer.MAX_VALUE, Integer.MIN_VALUE};
@@ -527,7 +527,7 @@ public final class PromisesTest extends Bench {
     }
 
     private static void promise20() {
-        LearntReasons x = told("grow 2;1 2;");
+        Subject x = told("grow 2;1 2;");
         due("ahead of any", x.model(1), -1);
         x.solve(1);
         dueModel(x, 0, 1);
@@ -548,7 +548,7 @@ public final class PromisesTest extends Bench {
     }
 
     private static void promise21() {
-        LearntReasons x = told("grow 4;-1 2;-2 3;assume 4 1 -3;");
+        Subject x = told("grow 4;-1 2;-2 3;assume 4 1 -3;");
         due("ahead of any", x.core(), -1);
         due("solve", x.solve(1), 0);
         due("core()", x.core(), 6);
@@ -560,7 +560,7 @@ public final class PromisesTest extends Bench {
         x.tell();
         due("solve", x.solve(1), 0);
         due("FALSE at LEVEL 0", x.core(), 2);
-        LearntReasons y = told("grow 3;1;-1 -2 3;assume 2 -3;");
+        Subject y = told("grow 3;1;-1 -2 3;assume 2 -3;");
         due("solve", y.solve(1), 0);
         due("LEVEL 0 is none of it", y.core(), 3);
         put(y, "-1;");
@@ -570,7 +570,7 @@ public final class PromisesTest extends Bench {
     }
 
     private static void promise22() {
-        LearntReasons x = told("grow 3;1 -2;2;");
+        Subject x = told("grow 3;1 -2;2;");
         due("in two", x.variable(2, 2), 2);
         due("in none", x.variable(3, 2), 0);
         due("PHASE", x.variable(1, 0), 0);
@@ -590,7 +590,7 @@ public final class PromisesTest extends Bench {
     }
 
     private static void promise23() {
-        LearntReasons x = told("grow 4;-1 2;-2 -4;1;3 4;assume 4;");
+        Subject x = told("grow 4;-1 2;-2 -4;1;3 4;assume 4;");
         // clause 2 draws 1; then clause 0 2, clause 1 -4, clause 3 3
         int[] order = {1, 2, -4, 3};
         due("how many", x.follows(-1), 4);
@@ -605,17 +605,17 @@ public final class PromisesTest extends Bench {
         due("none is counted", x.count(12), 0);
         due("PHASES stay", x.variable(1, 0), 0);
         // clauses 0 and 1 clash, and yet what else can be drawn comes
-        LearntReasons y = told("grow 3;1;-1;3;-3 2;");
+        Subject y = told("grow 3;1;-1;3;-3 2;");
         due("a clash", y.follows(-1), 100);
         due("follows(0)", y.follows(0), 1);
         due("follows(1)", y.follows(1), 3);
         due("follows(2)", y.follows(2), 2);
         due("follows(3)", y.follows(3), 0);
-        due("of nothing", new LearntReasons().follows(-1), 0);
+        due("of nothing", new Subject().follows(-1), 0);
     }
 
     private static void promise24() {
-        LearntReasons x = told("grow 4;1 3 4;1 3 -4;");
+        Subject x = told("grow 4;1 3 4;1 3 -4;");
         due("no line yet", x.line(0, -1), -100);
         x.solve(9);
         due("line(0, -1)", x.line(0, -1), 2);
@@ -638,7 +638,7 @@ public final class PromisesTest extends Bench {
     }
 
     private static void promise25() {
-        LearntReasons x = told(ALL_FOUR);
+        Subject x = told(ALL_FOUR);
         due("of no line", x.proof(), -1);
         x.solve(9);
         due("lines", x.count(7), 2);
@@ -648,7 +648,7 @@ public final class PromisesTest extends Bench {
     }
 
     private static void promise26() {
-        LearntReasons x = told(ALL_FOUR + "grow 10;");
+        Subject x = told(ALL_FOUR + "grow 10;");
         due("of nothing", x.refute(), 0);
         put(x, "3;");
         due("not drawn", x.refute(), 0);
@@ -677,7 +677,7 @@ public final class PromisesTest extends Bench {
     }
 
     private static void promise27() {
-        LearntReasons x = told(ALL_FOUR);
+        Subject x = told(ALL_FOUR);
         due("ahead of any", x.closed(), -1);
         dueLogFault(x, "9;", 2, 0);
         due("a FAULT is none", x.closed(), -1);
@@ -695,7 +695,7 @@ public final class PromisesTest extends Bench {
     }
 
     private static void promise28() {
-        LearntReasons x = new LearntReasons();
+        Subject x = new Subject();
         due("of nothing", x.models(), 1);
         x.grow(5);
         due("of 5", x.models(), 32);
@@ -712,22 +712,22 @@ public final class PromisesTest extends Bench {
         x.grow(1);
         due("of 13", x.models(), -1);
         due("of a clash", told("grow 1;1;-1;").models(), 0);
-        LearntReasons y = told("grow 1;");
+        Subject y = told("grow 1;");
         y.add(1);
         due("one being told is none yet", y.models(), 2);
     }
 
     private static void promise29() {
-        LearntReasons x = told("grow 12;1 2;1 -2;-12;-7 12;8 7;-3 9;3 9;");
+        Subject x = told("grow 12;1 2;1 -2;-12;-7 12;8 7;-3 9;3 9;");
         due("so", x.fixed(true), 1 | 1 << 7 | 1 << 8);
         due("not so", x.fixed(false), 1 << 11 | 1 << 6);
         x.grow(1);
         due("of 13", x.fixed(true), -1);
         due("of 13", x.fixed(false), -1);
-        LearntReasons y = told("grow 1;1;-1;");
+        Subject y = told("grow 1;1;-1;");
         due("of a clash", y.fixed(true), -1);
         due("of a clash", y.fixed(false), -1);
-        due("of nothing", new LearntReasons().fixed(false), 0);
+        due("of nothing", new Subject().fixed(false), 0);
         due("ASSUMPTIONS aside", told("grow 2;assume 1;").fixed(true), 0);
     }
 

@@ -8,9 +8,11 @@ import java.util.Random;
 /** Runs of calls drawn from seeds, each answered by the class and by its plain twin. */
 public final class TwinTest {
     private static final int THREW = 1 << 30;
+    /** A step takes at most so many calls: a text of 400 bytes, told and asked about. */
+    private static final int CALLS_OF_A_STEP = 30;
 
     private final Random random;
-    private final LearntReasons x = new LearntReasons();
+    private final Subject x = new Subject();
     private final PlainTwin y = new PlainTwin();
     private final List<String> calls = new ArrayList<>();
     private final int style;
@@ -292,33 +294,56 @@ public final class TwinTest {
         met.merge("ended " + y.s.ended, 1, Integer::sum);
     }
 
+    /** Asked aside, for it is more than the calls that are left. */
+    private void sameAside(String call, Subject.Call question, int want) {
+        int got;
+        try {
+            got = x.aside(question);
+        } catch (NoSuchElementException e) {
+            got = THREW;
+        }
+        same(call, got, want);
+    }
+
     private void askAll() {
         for (int what = -1; what <= 15; what++) {
-            same("count(" + what + ")", x.count(what), y.count(what));
+            int n = what;
+            sameAside("count(" + n + ")", o -> o.count(n), y.count(n));
         }
-        same("fault()", x.fault(), y.fault());
-        same("closed()", x.closed(), y.closed());
-        for (int v = 0; v <= y.s.v + 1; v++) {
-            same("model(" + v + ")", x.model(v), y.model(v));
-            for (int what = -1; what <= 3; what++) {
-                same("variable(" + v + ", " + what + ")", x.variable(v, what), y.variable(v, what));
-            }
-        }
+        sameAside("fault()", LearntReasons::fault, y.fault());
+        sameAside("closed()", LearntReasons::closed, y.closed());
+        askVariables();
         for (int i = -1; i <= y.s.clauses.size(); i++) {
+            int clause = i;
             int length = i >= 0 && i < y.s.clauses.size() ? y.s.clauses.get(i).literals.size() : 0;
-            for (int what = -4; what <= length; what++) {
-                same("clause(" + i + ", " + what + ")", clauseOr(false, i, what), clauseOr(true, i, what));
+            for (int k = -4; k <= length; k++) {
+                int what = k;
+                sameAside("clause(" + i + ", " + k + ")", o -> o.clause(clause, what), clauseOr(true, i, k));
             }
         }
         for (int i = -1; i <= y.s.log.size(); i++) {
+            int line = i;
             int length = i >= 0 && i < y.s.log.size() ? y.s.log.get(i).size() : 0;
-            for (int what = -2; what <= length; what++) {
-                same("line(" + i + ", " + what + ")", x.line(i, what), y.line(i, what));
+            for (int k = -2; k <= length; k++) {
+                int what = k;
+                sameAside("line(" + i + ", " + k + ")", o -> o.line(line, what), y.line(i, k));
             }
         }
         for (int i = -2; i <= 30; i++) {
-            same("follows(" + i + ")", x.follows(i), y.follows(i));
-            same("assumption(" + i + ")", x.assumption(i), y.assumption(i));
+            int n = i;
+            sameAside("follows(" + i + ")", o -> o.follows(n), y.follows(i));
+            sameAside("assumption(" + i + ")", o -> o.assumption(n), y.assumption(i));
+        }
+    }
+
+    private void askVariables() {
+        for (int i = 0; i <= y.s.v + 1; i++) {
+            int v = i;
+            sameAside("model(" + v + ")", o -> o.model(v), y.model(v));
+            for (int k = -1; k <= 3; k++) {
+                int what = k;
+                sameAside("variable(" + v + ", " + k + ")", o -> o.variable(v, what), y.variable(v, k));
+            }
         }
     }
 
@@ -331,7 +356,7 @@ public final class TwinTest {
             default:
         }
         int steps = style < 3 ? 30 : 200;
-        for (int i = 0; i < steps && wrong == 0; i++) {
+        for (int i = 0; i < steps && wrong == 0 && x.callsLeft() > CALLS_OF_A_STEP; i++) {
             int kind = below(20);
             if (style < 3 && below(3) == 0) {
                 solveOne();
@@ -358,7 +383,8 @@ public final class TwinTest {
         } else {
             pigeons(4);
         }
-        for (int i = 0; i < 100 && wrong == 0 && !y.s.refuted && y.s.ended != 3; i++) {
+        for (int i = 0; i < 100 && wrong == 0 && !y.s.refuted && y.s.ended != 3
+                && x.callsLeft() > 2 * CALLS_OF_A_STEP; i++) {
             int unit = below(4);
             same("unit(" + unit + ")", x.unit(unit), y.unit(unit));
             int budget = 5 + below(6);
